@@ -584,7 +584,8 @@ public final class NextFair {
         }
 
         void addCode(int op) {
-            set(code, codeLength, op);
+            if (codeLength < 0 || codeLength >= code.length) return;
+            code[codeLength] = op;
             codeLength++;
         }
 
@@ -724,7 +725,16 @@ public final class NextFair {
             step();
             if (!readHead()) return false;
             for (int line = 1; line < tokens && kind != END; line++) {
-                if (!readLine() || !take(';')) return false;
+                boolean good;
+                switch (kind) {
+                    case MERCHANT_WORD: good = readMerchant(); break;
+                    case LETTER_WORD: good = readLetter(); break;
+                    case WORTH_WORD: good = readLaw(false); break;
+                    case TIME_WORD: good = readLaw(true); break;
+                    case FAIR_WORD: good = readFirstFair(); break;
+                    default: good = refuse(CANT_STAND); break;
+                }
+                if (!good || !take(';')) return false;
                 book.lines++;
             }
             world.countDuesFrom(world.fair);
@@ -794,12 +804,12 @@ public final class NextFair {
 
         private void step() {
             next++;
-            kind = at(kinds, next);
+            kind = next >= 0 && next < kinds.length ? kinds[next] : END;
         }
 
         private boolean refuse(int why) {
             fault = kind == BAD ? CANT_BEGIN : why;
-            faultPlace = at(places, next);
+            faultPlace = next >= 0 && next < places.length ? places[next] : 0;
             return false;
         }
 
@@ -826,17 +836,6 @@ public final class NextFair {
             book.moneys = number;
             book.lines = 1;
             return take(';');
-        }
-
-        private boolean readLine() {
-            switch (kind) {
-                case MERCHANT_WORD: return readMerchant();
-                case LETTER_WORD: return readLetter();
-                case WORTH_WORD: return readLaw(false);
-                case TIME_WORD: return readLaw(true);
-                case FAIR_WORD: return readFirstFair();
-                default: return refuse(CANT_STAND);
-            }
         }
 
         private boolean readMerchant() {
@@ -952,19 +951,18 @@ public final class NextFair {
                     if (open >= NESTED) return refuse(ONE_TOO_MANY);
                     step();
                     return readJoined(OF_SIGNS, open + 1) && take(')');
-                case NUMBER: return takeAtom(true, at(values, next));
-                case FAIR_WORD: return takeAtom(true, Book.FAIR);
-                case YEAR_WORD: return takeAtom(true, Book.YEAR);
-                case MONEY_WORD: return takeAtom(!inTime, Book.WHO);
-                case WHO_WORD: return takeAtom(inTime, Book.WHO);
-                case CASH_WORD: return takeAtom(inTime, Book.CASH);
-                case SHORT_WORD: return takeAtom(inTime, Book.SHORT);
+                case NUMBER: return takeAtom(at(values, next));
+                case FAIR_WORD: return takeAtom(Book.FAIR);
+                case YEAR_WORD: return takeAtom(Book.YEAR);
+                case MONEY_WORD: return inTime ? refuse(CANT_STAND) : takeAtom(Book.WHO);
+                case WHO_WORD: return inTime ? takeAtom(Book.WHO) : refuse(CANT_STAND);
+                case CASH_WORD: return inTime ? takeAtom(Book.CASH) : refuse(CANT_STAND);
+                case SHORT_WORD: return inTime ? takeAtom(Book.SHORT) : refuse(CANT_STAND);
                 default: return refuse(CANT_STAND);
             }
         }
 
-        private boolean takeAtom(boolean here, int op) {
-            if (!here) return refuse(CANT_STAND);
+        private boolean takeAtom(int op) {
             book.addCode(op);
             step();
             return true;

@@ -119,6 +119,7 @@ public final class AheadTest {
         Check.due("27: n", x.saves(0, 31), -3);
         Check.due("28: 3", x.favour(12, 6), 3);
         Check.due("28: too little", x.favour(11, 6), -1);
+        Check.due("28: 1 is too little", x.favour(1, 6), -1);
         Check.due("28: sum", x.favour(0, 6), -3);
         Check.due("28: sum", x.favour(1000, 6), -3);
         Check.due("28: n", x.favour(12, 0), -3);
@@ -157,6 +158,38 @@ public final class AheadTest {
         Check.due("27: by none", v.saves(0, 30), -1);
     }
 
+    /** As far as 30 fairs: time is given till the last but one. */
+    private static void farthest() {
+        String head = "fairs 1 moneys 1;merchant 0;merchant 0;merchant 5;merchant 0;letter 0 to 1 of 5 at 0;"
+            + "letter 2 to 3 of 5 at 20;letter 3 to 2 of 5 at 20;time : year < ";
+        NextFair x = of(head + "29;");
+        Check.due("23: behind 30", x.breaksIn(0), 30);
+        Check.due("24: behind 30", x.broken(30), 1);
+        Check.due("24: behind 29", x.broken(29), 0);
+        Check.due("27: within 30", x.saves(0, 30), 5);
+        Check.due("27: within 29", x.saves(0, 29), 0);
+        Check.due("28: within 30", x.favour(5, 30), 0);
+        Check.due("28: too little", x.favour(4, 30), -1);
+        Check.due("25: 0 breaks anyhow", x.chain(1, 30), 0);
+        x = of(head + "30;");
+        Check.due("23: not by then", x.breaksIn(0), -1);
+        Check.due("24: not by then", x.broken(30), 0);
+        x = of("fairs 1 moneys 1;merchant 0;merchant 0;merchant 1;letter 0 to 2 of 1 at 0;letter 2 to 1 of 1 at 0;"
+            + "letter 2 to 0 of 1 at 1;time : year < 29;");
+        Check.due("23: not by then", x.breaksIn(0), -1);
+        Check.due("25: of 2, nobody", x.chain(2, 30), 0);
+        x.write(0, 1, 1, 1);
+        Check.due("23", x.breaksIn(0), 30);
+        x.lend(2, 0, 1);
+        // 0 has 1 now: it pays 2, who pays 1; at fair 1 0 owes 1 to 1, is owed 1 by 2, who has none till 29
+        Check.due("23: 0", x.breaksIn(0), 30);
+        Check.due("23: 2", x.breaksIn(2), 30);
+        Check.due("26: within 30", x.pillar(30), -1);
+        x = of("fairs 1 moneys 1;merchant 0;merchant 1;letter 1 to 0 of 1 at 20;letter 0 to 1 of 1 at 20;"
+            + "time : year < 29;");
+        Check.due("25: of 1, all void", x.chain(1, 30), 0);
+    }
+
     private static void rings() {
         NextFair x = of("fairs 1 moneys 1;merchant 1;merchant 1;merchant 1;merchant 1;"
             + "letter 2 to 0 of 9 at 0;letter 0 to 1 of 6 at 0;letter 1 to 2 of 4 at 0;letter 1 to 0 of 6 at 0;"
@@ -187,6 +220,8 @@ public final class AheadTest {
         y.write(0, 1, 6, 0);
         // 1 4 is of 12 as well: 0 1 2 3 is the first
         Check.due("30: of like ones", y.ring(1), 4);
+        Check.due("30: a ring without asking how many", of("fairs 1 moneys 1;merchant 0;merchant 1;"
+            + "letter 1 to 0 of 1 at 0;letter 0 to 1 of 9 at 0;").ring(0), 2);
         Check.due("30: none", of("fairs 1 moneys 1;").ring(0), -1);
         Check.due("30: what, ahead of none", of("fairs 1 moneys 1;").ring(2), -2);
         // eight merchants' worth of letters, but rings of six at most: 0 to 5 round
@@ -272,6 +307,7 @@ public final class AheadTest {
         ahead();
         chains();
         saving();
+        farthest();
         rings();
         hanging();
         odds();

@@ -220,6 +220,43 @@ public final class DeedsTest {
         Check.due("13: time once more", x.letter(2, 3), 0);
     }
 
+    /** Is time given to merchant 1, who is short by 6 with 3, at fair 17 of 5 a year? */
+    private static void law(String law, boolean holds) {
+        NextFair x = new NextFair();
+        Check.tell(x, "fairs 5 moneys 1;merchant 0;merchant 3;letter 1 to 0 of 9 at 0;fair 17;time : " + law + ";");
+        Check.due("13: " + law, x.hold(1, false), holds ? 0 : 1);
+        Check.due("13: " + law, x.letter(0, 4), holds ? 0 : 2);
+    }
+
+    private static void laws() {
+        law("who = 1", true);
+        law("who < 1", false);
+        law("who > 0", true);
+        law("cash > 3", false);
+        law("cash < 3", false);
+        law("cash = 3", true);
+        law("short = 6", true);
+        law("fair = 2 and year = 3", true);
+        law("fair * 100 + year = 203", true);
+        law("not who = 1", false);
+        law("not not who = 1", true);
+        law("not who = 1 or cash = 3", true);
+        law("not [who = 1 or cash = 3]", false);
+        law("who = 1 or cash = 3 and short = 0", true);
+        law("[who = 1 or cash = 3] and short = 0", false);
+        law("short = 0 and who = 1 or cash = 3", true);
+        law("who = 0 or cash = 0 or short = 6", true);
+        law("who = 1 and cash = 3 and short = 0", false);
+        law("(who + 1) * 2 = 4", true);
+        law("10 - cash - short = 1", true);
+        law("10 - (cash - short) = 13", true);
+        law("0 - short < 0 - 5", true);
+        law("999 * 999 * 999 = 1 + 999 * 999 * 2", true);
+        law("0 - 999 * 999 * 999 = 0 - 999 * 999 - 999 * 999 + 0 * who", true);
+        law("1 = 1;time : 1 = 2", false);
+        law("1 = 2;time : 1 = 1", true);
+    }
+
     private static void mules() {
         NextFair x = new NextFair();
         String text = "fairs 1 moneys 1;merchant 99;merchant 99;letter 0 to 1 of 1 at 0 late 5;"
@@ -429,6 +466,7 @@ public final class DeedsTest {
         holds();
         atOnce();
         times();
+        laws();
         mules();
         undoing();
         judges();

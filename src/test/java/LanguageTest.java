@@ -27,7 +27,8 @@ public final class LanguageTest {
     /** The only methods that use an index as it comes: each looks at it first, or counts it against the length. */
     private static final Set<String> INDEXING = Set.of("NextFair.<init>", "NextFair.layOnTape", "NextFair.trayOf",
         "NextFair.imageOf", "NextFair.at", "NextFair.set", "NextFair.Reader.split", "NextFair.Reader.addNumber",
-        "NextFair.Reader.wordKind", "NextFair.Past.<init>", "NextFair.Past.row", "NextFair.Tray.make",
+        "NextFair.Reader.wordKind", "NextFair.Reader.step", "NextFair.Reader.refuse", "NextFair.Book.addCode",
+        "NextFair.Past.<init>", "NextFair.Past.row", "NextFair.Tray.make",
         "NextFair.Tray.get", "NextFair.Tray.keep");
     private static final int DEEP = 8;
 
@@ -202,6 +203,21 @@ public final class LanguageTest {
         return way;
     }
 
+    /** The longest way on which no method stands twice. */
+    private static List<String> longest(String m, LinkedHashSet<String> open) {
+        List<String> best = List.of();
+        open.add(m);
+        for (String c : CALLS.getOrDefault(m, Set.of())) {
+            if (open.contains(c) || !c.startsWith("NextFair")) continue;
+            List<String> way = longest(c, open);
+            if (way.size() > best.size()) best = way;
+        }
+        open.remove(m);
+        List<String> way = new ArrayList<>(best);
+        way.add(0, m);
+        return way;
+    }
+
     private static void depthRules() {
         for (String m : CALLS.keySet()) if (!INDEX.containsKey(m)) connect(m);
         List<String> most = List.of();
@@ -216,6 +232,10 @@ public final class LanguageTest {
                     System.out.println("8: a recursion through " + m);
                 }
             }
+        }
+        for (String m : CALLS.keySet()) {
+            List<String> way = longest(m, new LinkedHashSet<>());
+            if (way.size() > most.size()) most = way;
         }
         System.out.println("deepest: " + String.join(" > ", most));
         if (most.size() > DEEP) {

@@ -19,6 +19,8 @@ public final class MoneysTest {
         NextFair x = of("fairs 2 moneys 2;worth : 10 + fair * (money * 15 - 5);");
         path(x, 0, 10, 0, 100, 0);
         path(x, 1, 10, 0, 100, 0);
+        path(x, 0, 1, 0, 10, 0);
+        path(x, 0, 999, 0, 9990, 0);
         path(x, 0, 10, 1, 200, 1, 0);
         path(x, 0, 10, 2, 400, 1, 0, 0);
         path(x, 0, 10, 9, 51200, 1, 0, 1, 0, 1, 0, 1, 0, 1, 0);
@@ -61,6 +63,7 @@ public final class MoneysTest {
         Check.due("36: n", x.interest(0, 100), -3);
         Check.due("37: 1", x.dearest(1), 1);
         Check.due("37: the first of like ones", x.dearest(2), 0);
+        Check.due("37: now all are alike", x.dearest(0), 0);
         Check.due("37: n", x.dearest(-1), -3);
         Check.due("37: n", x.dearest(100), -3);
         x.hold(1, false);
