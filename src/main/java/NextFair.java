@@ -988,9 +988,9 @@ public final class NextFair {
         final int[] dueAt = new int[LETTERS];
         final int[] state = new int[LETTERS];
         final int[] late = new int[LETTERS];
-        // Not brought back: NET as it was counted last, and the least each was SHORT by since nearest was set.
+        // Not brought back: NET as it was counted last, and by how much each was SHORT at the FAIR held last, if it was.
         final int[] nets = new int[MERCHANTS];
-        final int[] nearest = new int[MERCHANTS];
+        final int[] shortBy = new int[MERCHANTS];
 
         void clear() {
             merchants = 0;
@@ -1165,6 +1165,7 @@ public final class NextFair {
 
         void holdOne(Book book, boolean mules) {
             if (mules) waitForMules();
+            for (int m = 0; m < merchants; m++) set(shortBy, m, 0);
             boolean anyShort = true;
             // Each time that any is SHORT, one DUE letter at least is DUE here no more.
             for (int i = 0; i <= LETTERS && anyShort; i++) {
@@ -1185,15 +1186,16 @@ public final class NextFair {
             set(dueAt, l, at(dueAt, l) + 1);
         }
 
-        // All are found SHORT by the nets as they were counted, whatever becomes of those ahead.
+        // All are found SHORT by the nets as they were counted, whatever becomes of those ahead; none twice, for behind
+        // it no DUE letter by which it owes is left.
         private boolean settleShort(Book book) {
             boolean any = false;
             for (int m = 0; m < merchants; m++) {
-                int shortBy = -at(cash, m) - at(nets, m);
-                if (shortBy <= 0 || isBroken(m)) continue;
+                int below = -at(cash, m) - at(nets, m);
+                if (below <= 0 || isBroken(m)) continue;
                 any = true;
-                set(nearest, m, Math.min(at(nearest, m), shortBy));
-                if (book.tell(true, fair, m, at(cash, m), shortBy) != 0) giveTime(m);
+                set(shortBy, m, below);
+                if (book.tell(true, fair, m, at(cash, m), below) != 0) giveTime(m);
                 else breakDown(m);
             }
             return any;
@@ -1381,6 +1383,10 @@ public final class NextFair {
         private static final int MOST_SAVING = 9999;
 
         final World world = new World();
+        // Of the MERCHANT to be saved, FAIR by FAIR: its CASH ahead of it, by how much it was SHORT there, if it was.
+        private final int[] cashAt = new int[AHEAD];
+        private final int[] shortAt = new int[AHEAD];
+        private int held;
 
         void start(World now) {
             world.copyFrom(now);
@@ -1406,19 +1412,42 @@ public final class NextFair {
             return world.broken & ~anyhow & ~(1 << m);
         }
 
-        // Cash besides alters nothing for others till m isn't SHORT where it was, or the law minds its cash.
         int leastSaving(Book book, World now, int m, int n) {
-            boolean everyCopper = book.timeMindsCash();
-            int more = 0;
-            for (int tries = 0; tries <= MOST_SAVING && more <= MOST_SAVING; tries++) {
+            for (int more = 0; more <= MOST_SAVING; more += alike(book, now.fair, m)) {
                 start(now);
                 world.addCash(m, more);
-                set(world.nearest, m, MOST_SAVING + 1);
-                for (int i = 0; i < n && !world.isBroken(m); i++) world.holdOne(book, false);
+                goTillBroken(book, m, n);
                 if (!world.isBroken(m)) return more;
-                more += everyCopper ? 1 : Math.max(1, at(world.nearest, m));
             }
             return NONE;
+        }
+
+        private void goTillBroken(Book book, int m, int n) {
+            for (held = 0; held < n && !world.isBroken(m); held++) {
+                set(cashAt, held, at(world.cash, m));
+                world.holdOne(book, false);
+                set(shortAt, held, at(world.shortBy, m));
+            }
+        }
+
+        // So many coppers more, one at least, and not all goes as it did till m broke: others don't mind the cash of m,
+        // so fewer than that make it SHORT, and give it TIME, where they did, and it breaks again.
+        private int alike(Book book, int fair, int m) {
+            int least = MOST_SAVING + 1;
+            for (int i = 0; i < held; i++) if (at(shortAt, i) > 0) least = Math.min(least, at(shortAt, i));
+            if (!book.timeMindsCash()) return least;
+            for (int more = 1; more < least; more++) if (!goesAlike(book, fair, m, more)) return more;
+            return least;
+        }
+
+        private boolean goesAlike(Book book, int fair, int m, int more) {
+            for (int i = 0; i < held; i++) {
+                int shortBy = at(shortAt, i);
+                if (shortBy <= 0) continue;
+                boolean time = book.tell(true, fair + i, m, at(cashAt, i) + more, shortBy - more) != 0;
+                if (time != i < held - 1) return false;
+            }
+            return true;
         }
     }
 

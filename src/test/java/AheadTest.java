@@ -1,13 +1,7 @@
 /** Promises 18 to 34: what is due, who breaks, rings, late. */
 public final class AheadTest {
-    private static NextFair of(String text) {
-        NextFair x = new NextFair();
-        if (Check.tell(x, text) < 0) Check.due("3: " + text, x.fault(1), -1);
-        return x;
-    }
-
     private static void dues() {
-        NextFair x = of("fairs 1 moneys 1;merchant 10;merchant 20;merchant 5;letter 0 to 1 of 7 at 0;"
+        Counted x = Check.of("fairs 1 moneys 1;merchant 10;merchant 20;merchant 5;letter 0 to 1 of 7 at 0;"
             + "letter 1 to 2 of 9 at 0;letter 2 to 0 of 3 at 20;letter 0 to 2 of 12 at 4;letter 0 to 1 of 2 at 4;"
             + "letter 1 to 2 of 1 at 4;");
         Check.due("18: here", x.due(0), 3);
@@ -50,7 +44,7 @@ public final class AheadTest {
         + "letter 0 to 1 of 10 at 1;letter 1 to 2 of 10 at 1;letter 2 to 3 of 8 at 2;letter 3 to 4 of 20 at 5;";
 
     private static void ahead() {
-        NextFair x = of(ROW);
+        Counted x = Check.of(ROW);
         // fair 1: 0 pays 10, by 1 to 2; fair 2: 2 pays 8 to 3; fair 5: 3 owes 20, has 8: it breaks
         int[][] cash = {{10, 10, 0, 0, 0, 0, 0}, {0, 0, 0, 0, 0, 0, 0}, {0, 0, 10, 2, 2, 2, 2},
             {0, 0, 0, 8, 8, 8, 8}, {7, 7, 7, 7, 7, 7, 7}};
@@ -78,7 +72,7 @@ public final class AheadTest {
     }
 
     private static void chains() {
-        NextFair x = of(ROW);
+        Counted x = Check.of(ROW);
         Check.due("25: of 0; 3 breaks anyhow", x.chain(0, 6), 6);
         Check.due("25: of 0 within 2", x.chain(0, 2), 2);
         Check.due("25: of 0 within 3", x.chain(0, 3), 6);
@@ -98,7 +92,7 @@ public final class AheadTest {
         Check.due("25: n, ahead of broken", x.chain(3, 0), -3);
         Check.due("26: all of none", x.pillar(30), -1);
         // 4 and 5 hang on 3, 1 and 2 on 0: like ones
-        NextFair y = of("fairs 1 moneys 1;merchant 9;merchant 0;merchant 0;merchant 9;merchant 0;merchant 0;"
+        Counted y = Check.of("fairs 1 moneys 1;merchant 9;merchant 0;merchant 0;merchant 9;merchant 0;merchant 0;"
             + "letter 3 to 4 of 4 at 0;letter 3 to 5 of 5 at 0;letter 4 to 3 of 4 at 1;letter 5 to 0 of 5 at 1;"
             + "letter 0 to 1 of 4 at 1;letter 0 to 2 of 5 at 2;letter 1 to 0 of 4 at 2;letter 2 to 3 of 5 at 3;");
         // letters to and by 3 are void: 5 owes 5 at 1 and has none; 4 owes nobody
@@ -110,7 +104,7 @@ public final class AheadTest {
     }
 
     private static void saving() {
-        NextFair x = of(ROW);
+        Counted x = Check.of(ROW);
         Check.due("27: 3", x.saves(3, 6), 12);
         Check.due("27: not by then", x.saves(3, 5), 0);
         Check.due("27: none", x.saves(5, 0), -2);
@@ -129,26 +123,26 @@ public final class AheadTest {
         Check.due("27: n, ahead of broken", x.saves(3, 0), -3);
         Check.due("28: broken ones aren't helped", x.favour(999, 6), -1);
         // 1 hangs on 0, 2 on 1; 3 is alone
-        NextFair y = of("fairs 1 moneys 1;merchant 0;merchant 0;merchant 0;merchant 0;merchant 0;"
+        Counted y = Check.of("fairs 1 moneys 1;merchant 0;merchant 0;merchant 0;merchant 0;merchant 0;"
             + "letter 0 to 1 of 5 at 0;letter 1 to 2 of 5 at 0;letter 2 to 4 of 5 at 0;letter 3 to 4 of 3 at 0;");
         Check.due("24: four", y.broken(1), 15);
         Check.due("28: 0 saves three", y.favour(5, 1), 0);
         Check.due("28: 4 saves but 3", y.favour(4, 1), 3);
         Check.due("27: least", y.saves(2, 1), 5);
         // more cash can break: time is given to the poor alone
-        NextFair z = of("fairs 1 moneys 1;merchant 3;merchant 0;letter 0 to 1 of 900 at 0;time : cash < 5 or cash = 8;");
+        Counted z = Check.of("fairs 1 moneys 1;merchant 3;merchant 0;letter 0 to 1 of 900 at 0;time : cash < 5 or cash = 8;");
         Check.due("27: by none, time is given", z.saves(0, 5), 0);
         z.lend(0, 1, 3);
         z.write(1, 0, 6, 1);
         // fair 0: has 0, time; fair 1: 6 come, 0 + 6 - 900: cash is 0 still
         Check.due("27: time again", z.saves(0, 2), 0);
-        NextFair w = of("fairs 1 moneys 1;merchant 5;merchant 0;letter 0 to 1 of 900 at 0;time : cash < 5 or cash = 8;");
+        Counted w = Check.of("fairs 1 moneys 1;merchant 5;merchant 0;letter 0 to 1 of 900 at 0;time : cash < 5 or cash = 8;");
         Check.due("27: three more, then time is given", w.saves(0, 5), 3);
         Check.due("28: 3 would, 4 wouldn't", w.favour(3, 1), 0);
         Check.due("28: 4 wouldn't", w.favour(4, 1), -1);
         StringBuilder much = new StringBuilder("fairs 1 moneys 1;merchant 0;merchant 0;");
         for (int i = 0; i < 10; i++) much.append("letter 0 to 1 of 999 at ").append(i).append(';');
-        NextFair v = of(much.toString());
+        Counted v = Check.of(much.toString());
         Check.due("27: 9990", v.saves(0, 30), 9990);
         Check.due("27: 999", v.saves(0, 1), 999);
         v.write(0, 1, 9, 20);
@@ -162,7 +156,7 @@ public final class AheadTest {
     private static void farthest() {
         String head = "fairs 1 moneys 1;merchant 0;merchant 0;merchant 5;merchant 0;letter 0 to 1 of 5 at 0;"
             + "letter 2 to 3 of 5 at 20;letter 3 to 2 of 5 at 20;time : year < ";
-        NextFair x = of(head + "29;");
+        Counted x = Check.of(head + "29;");
         Check.due("23: behind 30", x.breaksIn(0), 30);
         Check.due("24: behind 30", x.broken(30), 1);
         Check.due("24: behind 29", x.broken(29), 0);
@@ -171,10 +165,10 @@ public final class AheadTest {
         Check.due("28: within 30", x.favour(5, 30), 0);
         Check.due("28: too little", x.favour(4, 30), -1);
         Check.due("25: 0 breaks anyhow", x.chain(1, 30), 0);
-        x = of(head + "30;");
+        x = Check.of(head + "30;");
         Check.due("23: not by then", x.breaksIn(0), -1);
         Check.due("24: not by then", x.broken(30), 0);
-        x = of("fairs 1 moneys 1;merchant 0;merchant 0;merchant 1;letter 0 to 2 of 1 at 0;letter 2 to 1 of 1 at 0;"
+        x = Check.of("fairs 1 moneys 1;merchant 0;merchant 0;merchant 1;letter 0 to 2 of 1 at 0;letter 2 to 1 of 1 at 0;"
             + "letter 2 to 0 of 1 at 1;time : year < 29;");
         Check.due("23: not by then", x.breaksIn(0), -1);
         Check.due("25: of 2, nobody", x.chain(2, 30), 0);
@@ -185,13 +179,13 @@ public final class AheadTest {
         Check.due("23: 0", x.breaksIn(0), 30);
         Check.due("23: 2", x.breaksIn(2), 30);
         Check.due("26: within 30", x.pillar(30), -1);
-        x = of("fairs 1 moneys 1;merchant 0;merchant 1;letter 1 to 0 of 1 at 20;letter 0 to 1 of 1 at 20;"
+        x = Check.of("fairs 1 moneys 1;merchant 0;merchant 1;letter 1 to 0 of 1 at 20;letter 0 to 1 of 1 at 20;"
             + "time : year < 29;");
         Check.due("25: of 1, all void", x.chain(1, 30), 0);
     }
 
     private static void rings() {
-        NextFair x = of("fairs 1 moneys 1;merchant 1;merchant 1;merchant 1;merchant 1;"
+        Counted x = Check.of("fairs 1 moneys 1;merchant 1;merchant 1;merchant 1;merchant 1;"
             + "letter 2 to 0 of 9 at 0;letter 0 to 1 of 6 at 0;letter 1 to 2 of 4 at 0;letter 1 to 0 of 6 at 0;"
             + "letter 0 to 1 of 8 at 1;letter 1 to 2 of 4 at 0;letter 2 to 3 of 1 at 0;");
         // 1 2 0, 1 5 0 and 1 3; letter 4 is due later
@@ -210,7 +204,7 @@ public final class AheadTest {
         Check.due("29", x.rings(), 2);
         Check.due("30: 0 1 5 by 2 each", x.ring(0), 6);
         Check.due("30: its third", x.ring(12), 5);
-        NextFair y = of("fairs 1 moneys 1;merchant 1;merchant 1;letter 0 to 1 of 3 at 0;letter 1 to 0 of 6 at 0;"
+        Counted y = Check.of("fairs 1 moneys 1;merchant 1;merchant 1;letter 0 to 1 of 3 at 0;letter 1 to 0 of 6 at 0;"
             + "letter 0 to 1 of 3 at 0;letter 1 to 0 of 3 at 0;");
         // 0 1, 0 3, 1 2, 2 3; 0 1 2 3, 0 3 2 1
         Check.due("29: merchants may come twice", y.rings(), 6);
@@ -220,12 +214,12 @@ public final class AheadTest {
         y.write(0, 1, 6, 0);
         // 1 4 is of 12 as well: 0 1 2 3 is the first
         Check.due("30: of like ones", y.ring(1), 4);
-        Check.due("30: a ring without asking how many", of("fairs 1 moneys 1;merchant 0;merchant 1;"
+        Check.due("30: a ring without asking how many", Check.of("fairs 1 moneys 1;merchant 0;merchant 1;"
             + "letter 1 to 0 of 1 at 0;letter 0 to 1 of 9 at 0;").ring(0), 2);
-        Check.due("30: none", of("fairs 1 moneys 1;").ring(0), -1);
-        Check.due("30: what, ahead of none", of("fairs 1 moneys 1;").ring(2), -2);
+        Check.due("30: none", Check.of("fairs 1 moneys 1;").ring(0), -1);
+        Check.due("30: what, ahead of none", Check.of("fairs 1 moneys 1;").ring(2), -2);
         // eight merchants' worth of letters, but rings of six at most: 0 to 5 round
-        NextFair z = of("fairs 1 moneys 1;merchant 1;merchant 1;merchant 1;merchant 1;merchant 1;merchant 1;"
+        Counted z = Check.of("fairs 1 moneys 1;merchant 1;merchant 1;merchant 1;merchant 1;merchant 1;merchant 1;"
             + "letter 0 to 1 of 2 at 0;letter 1 to 2 of 2 at 0;letter 2 to 3 of 2 at 0;letter 3 to 4 of 2 at 0;"
             + "letter 4 to 5 of 2 at 0;letter 5 to 0 of 2 at 0;");
         Check.due("29: six", z.rings(), 1);
@@ -237,7 +231,7 @@ public final class AheadTest {
     }
 
     private static void hanging() {
-        NextFair x = of("fairs 1 moneys 1;merchant 1;merchant 1;merchant 1;letter 0 to 1 of 8 at 0;"
+        Counted x = Check.of("fairs 1 moneys 1;merchant 1;merchant 1;merchant 1;letter 0 to 1 of 8 at 0;"
             + "letter 1 to 2 of 7 at 0;letter 1 to 0 of 3 at 0;letter 2 to 0 of 5 at 1;");
         // nets -5, -2, 7: coin 7; without 0: 3, -10, 7: 10; without 1: -5, 5, 0: 5; without 2: -8, 1, 7: 8
         Check.due("31: 0", x.hangs(0), -3);
@@ -254,7 +248,7 @@ public final class AheadTest {
 
     private static void odds() {
         // 1 breaks if 0's letter is late, unless its own is
-        NextFair x = of("fairs 1 moneys 1;merchant 5;merchant 0;merchant 0;letter 0 to 1 of 5 at 0 late 3;"
+        Counted x = Check.of("fairs 1 moneys 1;merchant 5;merchant 0;merchant 0;letter 0 to 1 of 5 at 0 late 3;"
             + "letter 1 to 2 of 5 at 0 late 4;");
         Check.due("32", x.calm(), 8200);
         Check.due("33", x.danger(1), 1800);
@@ -266,7 +260,7 @@ public final class AheadTest {
         Check.due("32: nothing due", x.calm(), 10000);
         Check.due("34: nothing due", x.vital(), -1);
         // one in 10,000 and less is cut: five letters late at once, of 1 in 10 each
-        NextFair y = of("fairs 1 moneys 1;merchant 0;merchant 4;merchant 5;letter 2 to 0 of 1 at 0 late 1;"
+        Counted y = Check.of("fairs 1 moneys 1;merchant 0;merchant 4;merchant 5;letter 2 to 0 of 1 at 0 late 1;"
             + "letter 2 to 0 of 1 at 0 late 1;letter 2 to 0 of 1 at 0 late 1;letter 2 to 0 of 1 at 0 late 1;"
             + "letter 2 to 0 of 1 at 0 late 1;letter 0 to 1 of 1 at 0;");
         Check.due("33: cut", y.danger(0), 0);
@@ -285,7 +279,7 @@ public final class AheadTest {
         Check.due("33: broken", y.danger(0), -5);
         Check.due("32: nobody else", y.calm(), 10000);
         // letters 0 and 3, late, each break 1 and 2 by it: that none is ever late doesn't matter
-        NextFair z = of("fairs 1 moneys 1;merchant 0;merchant 1;merchant 0;merchant 9;letter 3 to 1 of 2 at 0;"
+        Counted z = Check.of("fairs 1 moneys 1;merchant 0;merchant 1;merchant 0;merchant 9;letter 3 to 1 of 2 at 0;"
             + "letter 1 to 2 of 3 at 0;letter 2 to 0 of 3 at 0;letter 3 to 1 of 2 at 0;letter 1 to 0 of 2 at 0;");
         Check.due("34", z.vital(), 0);
         z.write(3, 2, 1, 0);
@@ -296,7 +290,7 @@ public final class AheadTest {
         z.lend(3, 1, 2);
         Check.due("34: none more", z.vital(), -1);
         // time given is no break
-        NextFair w = of("fairs 1 moneys 1;merchant 5;merchant 0;merchant 0;letter 0 to 1 of 5 at 0 late 3;"
+        Counted w = Check.of("fairs 1 moneys 1;merchant 5;merchant 0;merchant 0;letter 0 to 1 of 5 at 0 late 3;"
             + "letter 1 to 2 of 5 at 0 late 4;time : short = 5;");
         Check.due("32: time", w.calm(), 10000);
         Check.due("34: time", w.vital(), -1);

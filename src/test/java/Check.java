@@ -1,9 +1,16 @@
+import java.io.IOException;
+import java.io.UncheckedIOException;
 import java.nio.charset.StandardCharsets;
+import java.nio.file.Files;
+import java.nio.file.Path;
 
 /** What the tests share: counting answers that are not due, and texts laid on the tape. */
 final class Check {
     static int answers = 0;
     static int wrong = 0;
+
+    private static String document = "";
+    private static String sentence = "";
 
     private Check() {
     }
@@ -12,16 +19,60 @@ final class Check {
         answers++;
         if (got == want) return;
         wrong++;
-        if (wrong <= 50) System.out.println(what + " answered " + got + ", due is " + want);
+        if (wrong <= 50) System.out.println(sentence + what + " answered " + got + ", due is " + want);
+    }
+
+    /** What the document says, and all that is checked from here on holds the program to: its words, to the letter. */
+    static void says(String words) {
+        if (document.isEmpty()) document = read("../shared/DOC.md").replaceAll("\\s+", " ");
+        sentence = "";
+        due("does the document say '" + words + "'? It", document.contains(words) ? 1 : 0, 1);
+        sentence = "'" + words + "': ";
+    }
+
+    private static String read(String file) {
+        try {
+            return Files.readString(Path.of(file), StandardCharsets.UTF_8);
+        } catch (IOException e) {
+            throw new UncheckedIOException(e);
+        }
+    }
+
+    /** A new one with these fairs, which must be without fault. */
+    static Counted of(String text) {
+        Counted x = new Counted();
+        if (tell(x, text) < 0) due("place of a fault in " + text, x.fault(1), -1);
+        return x;
+    }
+
+    /** A text with a fault: which, and where. */
+    static void fault(String text, int kind, int place) {
+        Counted x = new Counted();
+        due("fairs() of " + text, tell(x, text), -30 - kind);
+        due("fault(0) of " + text, x.fault(0), kind);
+        due("fault(1) of " + text, x.fault(1), place);
+    }
+
+    /** A text without one: its lines. */
+    static void good(String text, int lines) {
+        Counted x = new Counted();
+        due("fairs() of " + text, tell(x, text), lines);
+        due("fault(0) of " + text, x.fault(0), 0);
+        due("fault(1) of " + text, x.fault(1), -1);
+        due("count(10) of " + text, x.count(10), lines);
+    }
+
+    static void cash(Counted x, int... coppers) {
+        for (int m = 0; m < coppers.length; m++) due("merchant(" + m + ", 0)", x.merchant(m, 0), coppers[m]);
     }
 
     /** Lays a text on the tape, blanks behind it, and reads it. */
-    static int tell(NextFair x, String text) {
+    static int tell(Counted x, String text) {
         lay(x, text);
         return x.fairs(text.length());
     }
 
-    static void lay(NextFair x, String text) {
+    static void lay(Counted x, String text) {
         for (int[] f : feeds(text)) x.feed(f[0], f[1], f[2], f[3], f[4]);
     }
 
@@ -37,7 +88,7 @@ final class Check {
     }
 
     /** A tray of the widest sort with these numbers. */
-    static void tray(NextFair x, int tray, long... numbers) {
+    static void tray(Counted x, int tray, long... numbers) {
         x.numbers(tray, 3, numbers.length);
         for (int i = 0; i < numbers.length; i++) x.put(tray, i, numbers[i]);
     }

@@ -10,18 +10,14 @@ public final class DeedsTest {
         return drawn >>> 16;
     }
 
-    private static NextFair four() {
-        NextFair x = new NextFair();
+    private static Counted four() {
+        Counted x = new Counted();
         Check.due("3: four", Check.tell(x, FOUR), 9);
         return x;
     }
 
-    private static void cash(NextFair x, String what, int... coppers) {
-        for (int m = 0; m < coppers.length; m++) Check.due(what + ": cash of " + m, x.merchant(m, 0), coppers[m]);
-    }
-
     private static void seeds() {
-        NextFair x = four();
+        Counted x = four();
         Check.due("8: at first", x.seed(-7), 0);
         Check.due("8: what it was", x.seed(-7), -7);
         Check.due("8: undone even if all is as it was", x.count(8), 2);
@@ -30,7 +26,7 @@ public final class DeedsTest {
     }
 
     private static void writes() {
-        NextFair x = four();
+        Counted x = four();
         Check.due("9: who", x.write(4, 0, 0, 0), -2);
         Check.due("9: who", x.write(-1, 0, 1, 0), -2);
         Check.due("9: whom", x.write(0, 4, 1, -1), -2);
@@ -58,31 +54,31 @@ public final class DeedsTest {
     }
 
     private static void pays() {
-        NextFair x = four();
+        Counted x = four();
         Check.due("10: none", x.pay(4), -11);
         Check.due("10: none", x.pay(-1), -11);
         Check.due("10: no cash", x.pay(1), -13);
         Check.due("10: how much", x.pay(0), 20);
-        cash(x, "10", 30, 50, 0, 9);
+        Check.cash(x, 30, 50, 0, 9);
         Check.due("10: paid", x.letter(0, 4), 1);
         Check.due("10: how much then", x.letter(0, 2), 0);
         Check.due("10: when then", x.letter(0, 3), -1);
         Check.due("10: again", x.pay(0), -12);
         Check.due("10: ahead of its fair", x.pay(1), 40);
-        cash(x, "10", 30, 10, 40, 9);
+        Check.cash(x, 30, 10, 40, 9);
         Check.due("10: no cash now", x.pay(3), -13);
         Check.due("14: one", x.undo(1), 1);
-        cash(x, "14", 30, 50, 0, 9);
+        Check.cash(x, 30, 50, 0, 9);
         Check.due("14: letter", x.letter(1, 4), 0);
         Check.due("14: letter", x.letter(1, 2), 40);
-        NextFair y = new NextFair();
+        Counted y = new Counted();
         Check.tell(y, "fairs 1 moneys 1;merchant 0;merchant 5;letter 0 to 1 of 1 at 0;letter 1 to 0 of 1 at 3;");
         y.hold(1, false);
         Check.due("10: void", y.pay(1), -12);
     }
 
     private static void lends() {
-        NextFair x = four();
+        Counted x = four();
         Check.due("11: both one", x.lend(1, 1, 5), -11);
         Check.due("11: from", x.lend(4, 1, 5), -11);
         Check.due("11: to", x.lend(1, -1, 5), -11);
@@ -90,11 +86,11 @@ public final class DeedsTest {
         Check.due("11: n", x.lend(1, 2, 1000), -11);
         Check.due("11: no cash", x.lend(1, 2, 31), -13);
         Check.due("11: cash of who lent", x.lend(1, 2, 30), 0);
-        cash(x, "11", 50, 0, 30, 9);
+        Check.cash(x, 50, 0, 30, 9);
         Check.due("11: cash of who lent", x.lend(2, 0, 999), -13);
         Check.due("11: none is paid", x.count(5), 15);
         Check.due("11: cash of who lent", x.lend(2, 0, 1), 29);
-        NextFair y = new NextFair();
+        Counted y = new Counted();
         Check.tell(y, "fairs 1 moneys 1;merchant 0;merchant 5;letter 0 to 1 of 1 at 0;");
         y.hold(1, false);
         Check.due("11: broken", y.lend(1, 0, 1), -12);
@@ -103,7 +99,7 @@ public final class DeedsTest {
     }
 
     private static void cancels() {
-        NextFair x = four();
+        Counted x = four();
         Check.due("12: tray", x.cancel(4), -2);
         Check.due("12: tray", x.cancel(-1), -2);
         Check.due("12: missing", x.cancel(3), -6);
@@ -131,7 +127,7 @@ public final class DeedsTest {
         Check.due("12: 0", x.letter(0, 2), 5);
         Check.due("12: 1", x.letter(1, 2), 25);
         Check.due("12: 2 is paid", x.letter(2, 4), 1);
-        cash(x, "12", 50, 30, 0, 9);
+        Check.cash(x, 50, 30, 0, 9);
         Check.due("12: paid", x.cancel(3), -12);
         Check.tray(x, 3, 3, 0);
         Check.due("12: two", x.cancel(3), 5);
@@ -148,12 +144,12 @@ public final class DeedsTest {
     }
 
     private static void holds() {
-        NextFair x = four();
+        Counted x = four();
         Check.due("13: n", x.hold(0, true), -3);
         Check.due("13: n", x.hold(21, false), -3);
         // net: 0 owes 20, is owed 15; 1 is owed 20; 2 owes 15 and has none: it breaks, so letters 1 and 2 are void
         Check.due("13: one", x.hold(1, false), 1);
-        cash(x, "13", 30, 50, 0, 9);
+        Check.cash(x, 30, 50, 0, 9);
         Check.due("13: bits", x.count(3), 4);
         Check.due("13: paid", x.letter(0, 4), 1);
         Check.due("13: void, not due here", x.letter(1, 4), 2);
@@ -161,7 +157,7 @@ public final class DeedsTest {
         Check.due("13: not yet", x.letter(3, 3), 1);
         Check.due("13: fair", x.count(6), 1);
         Check.due("13: two", x.hold(2, false), 0);
-        cash(x, "13", 50, 30, 0, 9);
+        Check.cash(x, 50, 30, 0, 9);
         Check.due("13: 20", x.hold(20, true), 0);
         Check.due("13: fair", x.count(6), 23);
         Check.due("14: more than can be", x.undo(4), -3);
@@ -175,13 +171,13 @@ public final class DeedsTest {
 
     // All are found short at once: 1 and 2 break, though 2 wouldn't, had 1 been found alone.
     private static void atOnce() {
-        NextFair x = new NextFair();
+        Counted x = new Counted();
         Check.tell(x, "fairs 1 moneys 1;merchant 0;merchant 2;merchant 3;letter 1 to 0 of 5 at 0;"
             + "letter 2 to 1 of 4 at 0;letter 0 to 2 of 5 at 7;");
         // 1: 2 - 5 + 4 = 1; 2: 3 - 4 = -1: 2 breaks; then 1: 2 - 5 = -3: it breaks
         Check.due("13: one behind the other", x.hold(1, false), 2);
         Check.due("13: bits", x.count(3), 6);
-        cash(x, "13", 0, 2, 3);
+        Check.cash(x, 0, 2, 3);
         Check.due("13: void to the broken", x.letter(2, 4), 2);
         Check.tell(x, "fairs 1 moneys 1;merchant 0;merchant 0;merchant 0;letter 0 to 1 of 5 at 0;"
             + "letter 1 to 2 of 9 at 0;letter 2 to 0 of 1 at 0;");
@@ -196,7 +192,7 @@ public final class DeedsTest {
     }
 
     private static void times() {
-        NextFair x = new NextFair();
+        Counted x = new Counted();
         String head = "fairs 3 moneys 1;merchant 4;merchant 2;merchant 50;letter 0 to 2 of 9 at 0;"
             + "letter 0 to 1 of 1 at 0;letter 1 to 2 of 5 at 0;letter 2 to 0 of 30 at 2;fair 5;";
         // 0: 4 - 10, short by 6; 1: 2 + 1 - 5, short by 2
@@ -206,7 +202,7 @@ public final class DeedsTest {
         Check.due("13: 0 has time", x.letter(0, 3), 0);
         Check.due("13: 0's letter to 1 is void", x.letter(1, 4), 2);
         Check.due("13: 1's is void", x.letter(2, 4), 2);
-        cash(x, "13", 4, 2, 50);
+        Check.cash(x, 4, 2, 50);
         Check.due("13: no time at the next fair", x.hold(1, false), 1);
         Check.due("13: bits", x.count(3), 3);
         Check.tell(x, head + "time : not short > 6;");
@@ -215,14 +211,14 @@ public final class DeedsTest {
         Check.due("13: later and later", x.letter(2, 3), 0);
         // 0: 4 - 10 + 30; 1: 2 + 1 - 5, short by 2 still
         Check.due("13: paid by what is owed", x.hold(1, false), 0);
-        cash(x, "13", 24, 3, 29);
+        Check.cash(x, 24, 3, 29);
         Check.due("13: paid", x.letter(0, 4), 1);
         Check.due("13: time once more", x.letter(2, 3), 0);
     }
 
     /** Is time given to merchant 1, who is short by 6 with 3, at fair 17 of 5 a year? */
     private static void law(String law, boolean holds) {
-        NextFair x = new NextFair();
+        Counted x = new Counted();
         Check.tell(x, "fairs 5 moneys 1;merchant 0;merchant 3;letter 1 to 0 of 9 at 0;fair 17;time : " + law + ";");
         Check.due("13: " + law, x.hold(1, false), holds ? 0 : 1);
         Check.due("13: " + law, x.letter(0, 4), holds ? 0 : 2);
@@ -258,11 +254,12 @@ public final class DeedsTest {
     }
 
     private static void mules() {
-        NextFair x = new NextFair();
+        Counted x = new Counted();
         String text = "fairs 1 moneys 1;merchant 99;merchant 99;letter 0 to 1 of 1 at 0 late 5;"
             + "letter 0 to 1 of 2 at 0;letter 0 to 1 of 4 at 1 late 9;letter 1 to 0 of 8 at 0 late 9;"
             + "letter 1 to 0 of 16 at 0 late 1;";
         for (int seed = 0; seed < 40; seed++) {
+            x = new Counted();
             Check.tell(x, text);
             x.seed(seed);
             drawn = seed;
@@ -292,7 +289,7 @@ public final class DeedsTest {
     }
 
     private static void undoing() {
-        NextFair x = four();
+        Counted x = four();
         Check.due("14: none yet", x.undo(1), -3);
         for (int i = 1; i <= 12; i++) x.seed(i);
         Check.due("14: ten at most", x.count(8), 10);
@@ -322,7 +319,7 @@ public final class DeedsTest {
     }
 
     private static void judges() {
-        NextFair x = four();
+        Counted x = four();
         Check.due("15: tray", x.judge(4, 0), -2);
         Check.due("15: tray", x.judge(-1, 0), -2);
         Check.due("15: what, ahead of missing", x.judge(0, 4), -2);
@@ -334,32 +331,32 @@ public final class DeedsTest {
         judged(x, "none", -1, 0, 0, 0);
         Check.due("16: none", x.perform(0), 0);
         // pay 0; ring of 0 and 3: 0 is paid
-        deeds(x, "ring of a paid one", 1, 2, 0, 0, 0, 103);
-        deeds(x, "ring of two", -1, 0, 0, 0, 130);
-        deeds(x, "no ring", 0, 2, 0, 0, 101);
-        deeds(x, "both one", 0, 1, 0, 0, 100);
-        deeds(x, "no such letter", 0, 1, 0, 0, 104);
-        deeds(x, "no such letter", 0, 1, 0, 0, 140);
-        deeds(x, "no such letter", 0, 1, 0, 0, 4);
-        deeds(x, "paid", 1, 2, 0, 0, 0, 0);
-        deeds(x, "no cash", 0, 3, 0, 0, 1);
-        deeds(x, "lent", -1, 0, 0, 0, 1002, 1021);
-        deeds(x, "no cash to lend", 0, 3, 0, 0, 1030);
-        deeds(x, "lent to itself", 0, 1, 0, 0, 1011);
-        deeds(x, "no merchant", 0, 1, 0, 0, 1004);
-        deeds(x, "no merchant", 0, 1, 0, 0, 1090);
-        deeds(x, "a fair", -1, 0, 4, 1, -1);
-        deeds(x, "paid, then no cash", 3, 3, 0, 0, 0, 1013, 3, 1);
-        deeds(x, "broken lends", 1, 2, 4, 1, -1, 1020, -1);
-        deeds(x, "broken is lent", 2, 2, 4, 2, -1, -1, 1002);
-        deeds(x, "void", 1, 2, 4, 1, -1, 1);
+        deeds("ring of a paid one", 1, 2, 0, 0, 0, 103);
+        deeds("ring of two", -1, 0, 0, 0, 130);
+        deeds("no ring", 0, 2, 0, 0, 101);
+        deeds("both one", 0, 1, 0, 0, 100);
+        deeds("no such letter", 0, 1, 0, 0, 104);
+        deeds("no such letter", 0, 1, 0, 0, 140);
+        deeds("no such letter", 0, 1, 0, 0, 4);
+        deeds("paid", 1, 2, 0, 0, 0, 0);
+        deeds("no cash", 0, 3, 0, 0, 1);
+        deeds("lent", -1, 0, 0, 0, 1002, 1021);
+        deeds("no cash to lend", 0, 3, 0, 0, 1030);
+        deeds("lent to itself", 0, 1, 0, 0, 1011);
+        deeds("no merchant", 0, 1, 0, 0, 1004);
+        deeds("no merchant", 0, 1, 0, 0, 1090);
+        deeds("a fair", -1, 0, 4, 1, -1);
+        deeds("paid, then no cash", 3, 3, 0, 0, 0, 1013, 3, 1);
+        deeds("broken lends", 1, 2, 4, 1, -1, 1020, -1);
+        deeds("broken is lent", 2, 2, 4, 2, -1, -1, 1002);
+        deeds("void", 1, 2, 4, 1, -1, 1);
         long[] none = {-2, 200, 999, 1100, 1999, 2001, Long.MIN_VALUE, Long.MAX_VALUE, 1L << 32, (1L << 32) - 1};
-        for (long v : none) deeds(x, "no such number " + v, 1, 1, 4, 1, -1, v, -1);
+        for (long v : none) deeds("no such number " + v, 1, 1, 4, 1, -1, v, -1);
         // lending to 2 saves it
-        deeds(x, "saved", -1, 0, 0, 1, 1002, 1002, -1);
+        deeds("saved", -1, 0, 0, 1, 1002, 1002, -1);
     }
 
-    private static void judged(NextFair x, String what, int place, int why, int broken, int fair) {
+    private static void judged(Counted x, String what, int place, int why, int broken, int fair) {
         Check.due("15: place: " + what, x.judge(0, 0), place);
         Check.due("15: why: " + what, x.judge(0, 1), why);
         Check.due("15: broken: " + what, x.judge(0, 2), broken);
@@ -367,7 +364,8 @@ public final class DeedsTest {
     }
 
     /** Judged, then done, then undone. */
-    private static void deeds(NextFair x, String what, int place, int why, int broken, int fair, long... told) {
+    private static void deeds(String what, int place, int why, int broken, int fair, long... told) {
+        Counted x = four();
         Check.tray(x, 0, told);
         judged(x, what, place, why, broken, fair);
         Check.due("15: nothing is done: " + what, x.count(8), 0);
@@ -382,10 +380,10 @@ public final class DeedsTest {
     }
 
     private static void performs() {
-        NextFair x = four();
+        Counted x = four();
         Check.tray(x, 1, 0, 1013, 102);
         Check.due("16: two", x.perform(1), 2);
-        cash(x, "16", 30, 40, 0, 19);
+        Check.cash(x, 30, 40, 0, 19);
         Check.due("16: paid", x.letter(0, 4), 1);
         x.undo(1);
         x.numbers(2, 0, 3);
@@ -409,12 +407,12 @@ public final class DeedsTest {
     }
 
     private static void years() {
-        NextFair x = new NextFair();
+        Counted x = new Counted();
         Check.due("17: times", x.year(1, 0), -3);
         Check.due("17: times", x.year(1, 31), -3);
         for (int seed = 0; seed < 60; seed++) {
             // without letters and merchants only fairs can be, and the others draw no more
-            x = new NextFair();
+            x = new Counted();
             drawn = seed;
             int fairs = 0;
             for (int i = 0; i < 5; i++) if (draw() % 4 == 0) fairs++;
@@ -427,7 +425,7 @@ public final class DeedsTest {
     }
 
     private static void oneTime(int seed) {
-        NextFair x = new NextFair();
+        Counted x = new Counted();
         StringBuilder text = new StringBuilder("fairs 1 moneys 1;merchant 40;merchant 5;merchant 20;");
         for (int l = 0; l < 11; l++) {
             text.append("letter ").append(l % 2).append(" to ").append(1 - l % 2);

@@ -4,7 +4,7 @@ public final class FairsTest {
     private static final String THREE = HEAD + "merchant 10;merchant 0;merchant 5;";
 
     private static void newObject() {
-        NextFair x = new NextFair();
+        Counted x = new Counted();
         int[] counts = {1, 1, 0, 0, 0, 0, 0, 0, 0, 0, 0, -1};
         for (int i = 0; i < counts.length; i++) Check.due("1: count " + i, x.count(i), counts[i]);
         Check.due("1: fault 0", x.fault(0), 0);
@@ -15,7 +15,7 @@ public final class FairsTest {
     }
 
     private static void tape() {
-        NextFair x = new NextFair();
+        Counted x = new Counted();
         for (int i = 1; i <= 45; i++) Check.due("2: feed " + i, x.feed(0x20202020, 0, -1, 1, 2), 20 * i);
         Check.due("2: feed 46", x.feed(0, 0, 0, 0, 0), -5);
         Check.due("2: bytes", x.count(9), 900);
@@ -30,7 +30,7 @@ public final class FairsTest {
     }
 
     private static void order() {
-        NextFair x = new NextFair();
+        Counted x = new Counted();
         // "fair" "s3mo" "neys" "2;me" "r%.." - the highest byte of each int first
         x.feed(0x66616972, 0x73336d6f, 0x6e657973, 0x323b6d65, 0x7225ffff);
         Check.due("2: order", x.fairs(20), -32);
@@ -46,117 +46,104 @@ public final class FairsTest {
         Check.due("4: others below", x.fault(-1), -1);
     }
 
-    private static void fault(String text, int kind, int place) {
-        NextFair x = new NextFair();
-        Check.due("3: answer of " + text, Check.tell(x, text), -30 - kind);
-        Check.due("4: fault of " + text, x.fault(0), kind);
-        Check.due("4: place in " + text, x.fault(1), place);
-    }
-
-    private static void good(String text, int lines) {
-        NextFair x = new NextFair();
-        Check.due("3: lines of " + text, Check.tell(x, text), lines);
-        Check.due("45: lines of " + text, x.count(10), lines);
-    }
-
     private static void tokens() {
-        fault("", 2, 0);
-        fault("  \n ", 2, 4);
-        fault("\t" + HEAD, 1, 0);
-        fault("fairs\r1 moneys 1;", 1, 5);
-        fault("Fairs 1 moneys 1;", 1, 0);
-        fault((char) 233 + "", 1, 0);
-        fault((char) 0xE1 + "airs 1 moneys 1;", 1, 0);
-        fault("fairs 0001 moneys 1;", 1, 6);
-        fault("fairs 1 moneys 1", 2, 16);
-        fault("fairs 1 moneys 1;;", 2, 17);
-        fault("fair 1 moneys 1;", 2, 0);
-        fault("fairss 1 moneys 1;", 2, 0);
-        fault("fair s 1 moneys 1;", 2, 0);
-        fault("fairs 1 moneys 1;merchants 1;", 2, 17);
-        fault("fairs 1 moneys 1;\n merchant 1 2;", 2, 30);
-        fault("fairs 1 moneys 1;merchant -1;", 2, 26);
-        fault("fairs 1 moneys 1;merchant 12.5;", 1, 28);
-        fault("fairs 1 moneys 1;merchant 1,", 1, 27);
-        fault("fairs 1 moneys 1;z", 2, 17);
-        fault("fairs 1 moneys 1;a{", 2, 17);
-        fault("fairs 1 moneys 1;{", 1, 17);
-        fault("fairs 1 moneys 1;`", 1, 17);
-        fault("fairs 1 moneys 1;merchant;", 2, 25);
-        fault("fairs 1 moneys 1;merchant", 2, 25);
-        fault("fairs 1 moneys 1;fair;", 2, 21);
-        fault("fairs 1 moneys 1;fair fair;", 2, 22);
-        fault("fairs 1 moneys 1;letter 0", 3, 24);
-        fault(THREE + "letter 0 2 of 1 at 0;", 2, 60);
-        fault(THREE + "letter 0 to 2 1 at 0;", 2, 65);
-        fault(THREE + "letter 0 to 2 of 1 0;", 2, 70);
-        fault(THREE + "letter 0 to of 1 at 0;", 2, 63);
-        fault(THREE + "letter 0 to 2 of 1 at 0 late late 1;", 2, 80);
-        fault("fairs 1 moneys 1;time 1 = 1;", 2, 22);
-        good("fairs 1 moneys 1;fair 0;fair 999;fair 3;", 4);
-        good("fairs1moneys1;", 1);
-        good(" \n\nfairs\n6moneys 4 ; merchant007;merchant 999;merchant 0 ; \n", 4);
-        good(THREE + "letter 0to 1of 2at3late4;letter2to1of999at20;", 6);
+        Check.fault("", 2, 0);
+        Check.fault("  \n ", 2, 4);
+        Check.fault("\t" + HEAD, 1, 0);
+        Check.fault("fairs\r1 moneys 1;", 1, 5);
+        Check.fault("Fairs 1 moneys 1;", 1, 0);
+        Check.fault((char) 233 + "", 1, 0);
+        Check.fault((char) 0xE1 + "airs 1 moneys 1;", 1, 0);
+        Check.fault("fairs 0001 moneys 1;", 1, 6);
+        Check.fault("fairs 1 moneys 1", 2, 16);
+        Check.fault("fairs 1 moneys 1;;", 2, 17);
+        Check.fault("fair 1 moneys 1;", 2, 0);
+        Check.fault("fairss 1 moneys 1;", 2, 0);
+        Check.fault("fair s 1 moneys 1;", 2, 0);
+        Check.fault("fairs 1 moneys 1;merchants 1;", 2, 17);
+        Check.fault("fairs 1 moneys 1;\n merchant 1 2;", 2, 30);
+        Check.fault("fairs 1 moneys 1;merchant -1;", 2, 26);
+        Check.fault("fairs 1 moneys 1;merchant 12.5;", 1, 28);
+        Check.fault("fairs 1 moneys 1;merchant 1,", 1, 27);
+        Check.fault("fairs 1 moneys 1;z", 2, 17);
+        Check.fault("fairs 1 moneys 1;a{", 2, 17);
+        Check.fault("fairs 1 moneys 1;{", 1, 17);
+        Check.fault("fairs 1 moneys 1;`", 1, 17);
+        Check.fault("fairs 1 moneys 1;merchant;", 2, 25);
+        Check.fault("fairs 1 moneys 1;merchant", 2, 25);
+        Check.fault("fairs 1 moneys 1;fair;", 2, 21);
+        Check.fault("fairs 1 moneys 1;fair fair;", 2, 22);
+        Check.fault("fairs 1 moneys 1;letter 0", 3, 24);
+        Check.fault(THREE + "letter 0 2 of 1 at 0;", 2, 60);
+        Check.fault(THREE + "letter 0 to 2 1 at 0;", 2, 65);
+        Check.fault(THREE + "letter 0 to 2 of 1 0;", 2, 70);
+        Check.fault(THREE + "letter 0 to of 1 at 0;", 2, 63);
+        Check.fault(THREE + "letter 0 to 2 of 1 at 0 late late 1;", 2, 80);
+        Check.fault("fairs 1 moneys 1;time 1 = 1;", 2, 22);
+        Check.good("fairs 1 moneys 1;fair 0;fair 999;fair 3;", 4);
+        Check.good("fairs1moneys1;", 1);
+        Check.good(" \n\nfairs\n6moneys 4 ; merchant007;merchant 999;merchant 0 ; \n", 4);
+        Check.good(THREE + "letter 0to 1of 2at3late4;letter2to1of999at20;", 6);
     }
 
     private static void bounds() {
-        fault("fairs 0 moneys 1;", 3, 6);
-        fault("fairs 7 moneys 1;", 3, 6);
-        fault("fairs 6 moneys 0;", 3, 15);
-        fault("fairs 6 moneys 5;", 3, 15);
-        fault(HEAD + "letter 0 to 1 of 1 at 1;", 3, 24);
-        fault(THREE + "letter 3 to 1 of 1 at 1;", 3, 58);
-        fault(THREE + "letter 1 to 3 of 1 at 1;", 3, 63);
-        fault(THREE + "letter 1 to 1 of 1 at 1;", 3, 63);
-        fault(THREE + "letter 1 to 0 of 0 at 1;", 3, 68);
-        fault(THREE + "letter 1 to 0 of 1 at 21;", 3, 73);
-        fault(THREE + "letter 1 to 0 of 1 at 1 late 10;", 3, 80);
-        fault(THREE + "letter 1 to 0 of 1 at 1 late;", 2, 79);
-        fault(THREE + "letter 1 to 1 of 1000 at 1;", 3, 63);
+        Check.fault("fairs 0 moneys 1;", 3, 6);
+        Check.fault("fairs 7 moneys 1;", 3, 6);
+        Check.fault("fairs 6 moneys 0;", 3, 15);
+        Check.fault("fairs 6 moneys 5;", 3, 15);
+        Check.fault(HEAD + "letter 0 to 1 of 1 at 1;", 3, 24);
+        Check.fault(THREE + "letter 3 to 1 of 1 at 1;", 3, 58);
+        Check.fault(THREE + "letter 1 to 3 of 1 at 1;", 3, 63);
+        Check.fault(THREE + "letter 1 to 1 of 1 at 1;", 3, 63);
+        Check.fault(THREE + "letter 1 to 0 of 0 at 1;", 3, 68);
+        Check.fault(THREE + "letter 1 to 0 of 1 at 21;", 3, 73);
+        Check.fault(THREE + "letter 1 to 0 of 1 at 1 late 10;", 3, 80);
+        Check.fault(THREE + "letter 1 to 0 of 1 at 1 late;", 2, 79);
+        Check.fault(THREE + "letter 1 to 1 of 1000 at 1;", 3, 63);
         String six = HEAD + "merchant 1;merchant 1;merchant 1;merchant 1;merchant 1;merchant 1;";
-        good(six, 7);
-        fault(six + "merchant", 4, 83);
+        Check.good(six, 7);
+        Check.fault(six + "merchant", 4, 83);
         StringBuilder twelve = new StringBuilder(six);
         for (int i = 0; i < 12; i++) twelve.append("letter 0 to 5 of 1 at 0;");
-        good(twelve.toString(), 19);
-        fault(twelve + "fair 1;letter 9", 4, twelve.length() + 7);
-        fault(HEAD + "fair 1000;", 1, 22);
+        Check.good(twelve.toString(), 19);
+        Check.fault(twelve + "fair 1;letter 9", 4, twelve.length() + 7);
+        Check.fault(HEAD + "fair 1000;", 1, 22);
     }
 
     private static void laws() {
-        fault(HEAD + "worth money;", 2, 23);
-        fault(HEAD + "worth : who;", 2, 25);
-        fault(HEAD + "worth : cash;", 2, 25);
-        fault(HEAD + "worth : short;", 2, 25);
-        fault(HEAD + "worth : 1 = 1;", 2, 27);
-        fault(HEAD + "worth : [1];", 2, 25);
-        fault(HEAD + "worth : not 1;", 2, 25);
-        fault(HEAD + "worth : 1 +;", 2, 28);
-        fault(HEAD + "worth : 1 * * 1;", 2, 29);
-        fault(HEAD + "worth : -1;", 2, 25);
-        fault(HEAD + "worth : (1;", 2, 27);
-        fault(HEAD + "worth : 1)", 2, 26);
-        fault(HEAD + "time : money = 1;", 2, 24);
-        fault(HEAD + "time : 1;", 2, 25);
-        fault(HEAD + "time : (1 = 1);", 2, 27);
-        fault(HEAD + "time : 1 = 1 = 1;", 2, 30);
-        fault(HEAD + "time : [1 = 1) ;", 2, 30);
-        fault(HEAD + "time : not;", 2, 27);
-        fault(HEAD + "time : 1 = 1 and;", 2, 33);
-        fault(HEAD + "time : 1 = 1 or or;", 2, 33);
-        fault(HEAD + "time : 1 = 1 not;", 2, 30);
-        good(HEAD + "time : not not not not not not 1 = 1;", 2);
-        fault(HEAD + "time : not not not not not not not 1 = 1;", 4, 48);
-        fault(HEAD + "time : not not not [[[[ 1 = 1;", 4, 39);
-        fault(HEAD + "time : not [ not [ not [ ( 1", 4, 42);
-        good(HEAD + "time : not [ not [ not ( 1 ) = (1) or not 1 = 1 ] ];", 2);
-        good(HEAD + "worth : ((((((1))))));worth:((((((1))))))+((((((1))))));", 3);
-        fault(HEAD + "worth : 1 + (((((((1", 4, 35);
-        good(HEAD + "time : cash = who and short > fair or year < 1;", 2);
+        Check.fault(HEAD + "worth money;", 2, 23);
+        Check.fault(HEAD + "worth : who;", 2, 25);
+        Check.fault(HEAD + "worth : cash;", 2, 25);
+        Check.fault(HEAD + "worth : short;", 2, 25);
+        Check.fault(HEAD + "worth : 1 = 1;", 2, 27);
+        Check.fault(HEAD + "worth : [1];", 2, 25);
+        Check.fault(HEAD + "worth : not 1;", 2, 25);
+        Check.fault(HEAD + "worth : 1 +;", 2, 28);
+        Check.fault(HEAD + "worth : 1 * * 1;", 2, 29);
+        Check.fault(HEAD + "worth : -1;", 2, 25);
+        Check.fault(HEAD + "worth : (1;", 2, 27);
+        Check.fault(HEAD + "worth : 1)", 2, 26);
+        Check.fault(HEAD + "time : money = 1;", 2, 24);
+        Check.fault(HEAD + "time : 1;", 2, 25);
+        Check.fault(HEAD + "time : (1 = 1);", 2, 27);
+        Check.fault(HEAD + "time : 1 = 1 = 1;", 2, 30);
+        Check.fault(HEAD + "time : [1 = 1) ;", 2, 30);
+        Check.fault(HEAD + "time : not;", 2, 27);
+        Check.fault(HEAD + "time : 1 = 1 and;", 2, 33);
+        Check.fault(HEAD + "time : 1 = 1 or or;", 2, 33);
+        Check.fault(HEAD + "time : 1 = 1 not;", 2, 30);
+        Check.good(HEAD + "time : not not not not not not 1 = 1;", 2);
+        Check.fault(HEAD + "time : not not not not not not not 1 = 1;", 4, 48);
+        Check.fault(HEAD + "time : not not not [[[[ 1 = 1;", 4, 39);
+        Check.fault(HEAD + "time : not [ not [ not [ ( 1", 4, 42);
+        Check.good(HEAD + "time : not [ not [ not ( 1 ) = (1) or not 1 = 1 ] ];", 2);
+        Check.good(HEAD + "worth : ((((((1))))));worth:((((((1))))))+((((((1))))));", 3);
+        Check.fault(HEAD + "worth : 1 + (((((((1", 4, 35);
+        Check.good(HEAD + "time : cash = who and short > fair or year < 1;", 2);
     }
 
     private static void worths() {
-        NextFair x = new NextFair();
+        Counted x = new Counted();
         Check.due("3", Check.tell(x, "fairs 3 moneys 4;"), 1);
         Check.due("7: without a law", x.worth(3, 5), 13);
         Check.due("7: money", x.worth(4, 0), -2);
@@ -180,7 +167,7 @@ public final class FairsTest {
     }
 
     private static void told() {
-        NextFair x = new NextFair();
+        Counted x = new Counted();
         Check.tell(x, "fairs 4 moneys 1;merchant 10;merchant 0;letter 0 to 1 of 7 at 2;"
             + "fair 33;letter 1 to 0 of 5 at 0 late 9;merchant 3;fair 41;letter 1 to 2 of 1 at 20 late 0;");
         Check.due("45: the later fair", x.count(6), 41);
@@ -212,7 +199,7 @@ public final class FairsTest {
     }
 
     private static void whatStays() {
-        NextFair x = new NextFair();
+        Counted x = new Counted();
         Check.tell(x, THREE);
         Check.tray(x, 2, 5, 6);
         x.image(1);

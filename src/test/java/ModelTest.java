@@ -2,7 +2,7 @@ import java.util.Random;
 
 /** Random runs of calls, each answer held against PlainModel's. */
 public final class ModelTest {
-    private static NextFair x;
+    private static Counted x;
     private static PlainModel y;
     private static Random random;
     private static String run;
@@ -106,7 +106,7 @@ public final class ModelTest {
         int due = y.due(0);
         same("numbers", x.numbers(tray, 2, n), y.numbers(tray, 2, n));
         if (due != 0 && !oneIn(4)) {
-            NextFair z = x;
+            Counted z = x;
             int l = Integer.numberOfTrailingZeros(due & -1 << random.nextInt(12));
             if (l < 32) {
                 same("image", z.image(0), y.image(0));
@@ -220,15 +220,16 @@ public final class ModelTest {
             random = new Random(i);
             run = "run " + i;
             calls = 0;
-            x = new NextFair();
+            x = new Counted();
             y = new PlainModel();
-            while (calls < 350) {
+            // What is done once round is of some 200 calls at most, what all() asks of 109.
+            while (x.calls() < 300) {
                 if (!(calls == 0 && oneIn(10)) && (calls == 0 || oneIn(80))) tellSome();
                 int asks = random.nextInt(12);
                 for (int k = 0; k < asks; k++) ask();
                 act();
             }
-            all();
+            if (x.calls() + 109 <= Counted.MOST) all();
         }
         Check.close("ModelTest");
     }

@@ -22,7 +22,7 @@ public final class NeverThrowsTest {
         return sort == 3 ? any() : -1 + 2001L * random.nextInt(2);
     }
 
-    private static void text(NextFair x) {
+    private static void text(Counted x) {
         FairText texts = new FairText(random);
         int sort = random.nextInt(6);
         String text = sort < 4 ? texts.good() : sort == 4 ? texts.faulty() : noise();
@@ -40,7 +40,7 @@ public final class NeverThrowsTest {
         return s.toString();
     }
 
-    private static long act(NextFair x, int which) {
+    private static long act(Counted x, int which) {
         switch (which) {
             case 0: return x.feed(any(), any(), any(), any(), any());
             case 1: return x.fault(any());
@@ -69,7 +69,7 @@ public final class NeverThrowsTest {
         }
     }
 
-    private static long ask(NextFair x, int which) {
+    private static long ask(Counted x, int which) {
         switch (which) {
             case 0: return x.due(any());
             case 1: return x.net(any(), any());
@@ -108,7 +108,7 @@ public final class NeverThrowsTest {
         while (s.length() < 890) s.append("+0*cash");
         s.setLength(s.length() - 7);
         s.append(';');
-        NextFair x = new NextFair();
+        Counted x = new Counted();
         Check.due("3: the dearest text", Check.tell(x, s.toString()), 16);
         Check.due("29: most rings", x.rings(), 36 + 450 + 4800);
         Check.due("32: time for all", x.calm(), 10000);
@@ -132,7 +132,7 @@ public final class NeverThrowsTest {
         long sum = 0;
         for (int i = 0; i < runs; i++) {
             random = new Random(1000003L * i);
-            NextFair x = new NextFair();
+            Counted x = new Counted(Integer.MAX_VALUE);
             if (random.nextInt(20) != 0) text(x);
             for (int calls = 0; calls < 400; calls++) {
                 boolean asks = random.nextInt(3) != 0;

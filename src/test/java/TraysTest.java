@@ -1,7 +1,7 @@
 /** Promises 40 to 45: trays, images, counts. */
 public final class TraysTest {
     private static void numbers() {
-        NextFair x = new NextFair();
+        Counted x = new Counted();
         Check.due("40: tray", x.numbers(4, 0, 41), -2);
         Check.due("40: tray", x.numbers(-1, 0, 0), -2);
         Check.due("40: sort", x.numbers(0, 4, -1), -2);
@@ -41,7 +41,7 @@ public final class TraysTest {
     }
 
     private static void lists() {
-        NextFair x = new NextFair();
+        Counted x = new Counted();
         Check.due("42: tray", x.lists(4), -2);
         Check.due("42: tray", x.lists(-1), -2);
         Check.due("42: missing", x.lists(1), -6);
@@ -66,7 +66,7 @@ public final class TraysTest {
         Check.due("42: nothing to undo", x.count(8), 1);
         // the fifth stays: as deeds 10, 300 ..: no letter 10
         Check.due("42", x.judge(2, 0), 0);
-        NextFair y = new NextFair();
+        Counted y = new Counted();
         Check.tell(y, "fairs 1 moneys 1;merchant 256;merchant 1;merchant 2;letter 0 to 1 of 1 at 3;"
             + "letter 1 to 0 of 1 at 3;letter 0 to 1 of 1 at 4;");
         y.numbers(0, 0, 3);
@@ -77,7 +77,7 @@ public final class TraysTest {
     }
 
     private static void images() {
-        NextFair x = new NextFair();
+        Counted x = new Counted();
         Check.due("43: i", x.image(2), -2);
         Check.due("43: i", x.image(-1), -2);
         Check.due("44: i", x.restore(2), -2);
@@ -120,7 +120,7 @@ public final class TraysTest {
     }
 
     private static void counts() {
-        NextFair x = new NextFair();
+        Counted x = new Counted();
         Check.tell(x, "fairs 6 moneys 4;merchant 100;merchant 20;merchant 3;letter 0 to 1 of 4 at 0;"
             + "letter 2 to 0 of 9 at 0;letter 0 to 1 of 2 at 7;fair 999;");
         x.feed(1, 1, 1, 1, 1);
