@@ -1413,20 +1413,24 @@ public final class NextFair {
         }
 
         int leastSaving(Book book, World now, int m, int n) {
-            for (int more = 0; more <= MOST_SAVING; more += alike(book, now.fair, m)) {
+            int more = 0;
+            for (int tries = 0; tries <= MOST_SAVING && more <= MOST_SAVING; tries++) {
                 start(now);
                 world.addCash(m, more);
                 goTillBroken(book, m, n);
                 if (!world.isBroken(m)) return more;
+                more += alike(book, now.fair, m);
             }
             return NONE;
         }
 
         private void goTillBroken(Book book, int m, int n) {
-            for (held = 0; held < n && !world.isBroken(m); held++) {
-                set(cashAt, held, at(world.cash, m));
+            held = 0;
+            for (int i = 0; i < n && !world.isBroken(m); i++) {
+                set(cashAt, i, at(world.cash, m));
                 world.holdOne(book, false);
-                set(shortAt, held, at(world.shortBy, m));
+                set(shortAt, i, at(world.shortBy, m));
+                held = i + 1;
             }
         }
 
@@ -1445,7 +1449,7 @@ public final class NextFair {
                 int shortBy = at(shortAt, i);
                 if (shortBy <= 0) continue;
                 boolean time = book.tell(true, fair + i, m, at(cashAt, i) + more, shortBy - more) != 0;
-                if (time != i < held - 1) return false;
+                if (time != (i < held - 1)) return false;
             }
             return true;
         }

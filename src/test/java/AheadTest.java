@@ -130,13 +130,15 @@ public final class AheadTest {
         Check.due("28: 4 saves but 3", y.favour(4, 1), 3);
         Check.due("27: least", y.saves(2, 1), 5);
         // more cash can break: time is given to the poor alone
-        Counted z = Check.of("fairs 1 moneys 1;merchant 3;merchant 0;letter 0 to 1 of 900 at 0;time : cash < 5 or cash = 8;");
+        Counted z = Check.of("fairs 1 moneys 1;merchant 3;merchant 0;letter 0 to 1 of 900 at 0;"
+            + "time : cash < 5 or cash = 8;");
         Check.due("27: by none, time is given", z.saves(0, 5), 0);
         z.lend(0, 1, 3);
         z.write(1, 0, 6, 1);
         // fair 0: has 0, time; fair 1: 6 come, 0 + 6 - 900: cash is 0 still
         Check.due("27: time again", z.saves(0, 2), 0);
-        Counted w = Check.of("fairs 1 moneys 1;merchant 5;merchant 0;letter 0 to 1 of 900 at 0;time : cash < 5 or cash = 8;");
+        Counted w = Check.of("fairs 1 moneys 1;merchant 5;merchant 0;letter 0 to 1 of 900 at 0;"
+            + "time : cash < 5 or cash = 8;");
         Check.due("27: three more, then time is given", w.saves(0, 5), 3);
         Check.due("28: 3 would, 4 wouldn't", w.favour(3, 1), 0);
         Check.due("28: 4 wouldn't", w.favour(4, 1), -1);
@@ -168,7 +170,8 @@ public final class AheadTest {
         x = Check.of(head + "30;");
         Check.due("23: not by then", x.breaksIn(0), -1);
         Check.due("24: not by then", x.broken(30), 0);
-        x = Check.of("fairs 1 moneys 1;merchant 0;merchant 0;merchant 1;letter 0 to 2 of 1 at 0;letter 2 to 1 of 1 at 0;"
+        x = Check.of("fairs 1 moneys 1;merchant 0;merchant 0;merchant 1;letter 0 to 2 of 1 at 0;"
+            + "letter 2 to 1 of 1 at 0;"
             + "letter 2 to 0 of 1 at 1;time : year < 29;");
         Check.due("23: not by then", x.breaksIn(0), -1);
         Check.due("25: of 2, nobody", x.chain(2, 30), 0);

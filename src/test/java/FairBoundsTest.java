@@ -13,7 +13,8 @@ public final class FairBoundsTest {
     // ---- what the laws know
 
     private static void counting() {
-        Check.says("FAIRS are counted on from 0: FAIR f is (in the laws) fair: f modulo how many a year has, year: f by that, cut.");
+        Check.says("FAIRS are counted on from 0: FAIR f is (in the laws) fair: f modulo how many a year has, year: f "
+            + "by that, cut.");
         Counted x = Check.of("fairs 6 moneys 1;worth : fair * 100 + year + 1;");
         int[] worths = {1, 101, 201, 301, 401, 501, 2, 102};
         for (int n = 0; n < worths.length; n++) Check.due("worth(0, " + n + ")", x.worth(0, n), worths[n]);
@@ -31,8 +32,8 @@ public final class FairBoundsTest {
             Check.due("time at " + fair, Check.of(text + "fair = 0 and year = 1;").hold(1, false), fair == 6 ? 0 : 1);
         }
 
-        Check.says("so many coppers a coin as the law worth tells, 1 at least, 999 at most (without one: 10 and its number): "
-            + "money: its number.");
+        Check.says("so many coppers a coin as the law worth tells, 1 at least, 999 at most (without one: 10 and its "
+            + "number): money: its number.");
         x = Check.of("fairs 1 moneys 4;");
         for (int m = 0; m < 4; m++) Check.due("without a law", x.worth(m, 0), 10 + m);
         x = Check.of("fairs 1 moneys 4;worth : money * 500 - 500;");
@@ -46,14 +47,16 @@ public final class FairBoundsTest {
         for (int m = 0; m < 4; m++) Check.due("worth of " + m, x.worth(m, 0), m < 2 ? 1 : m - 1);
     }
 
-    /** The law is this sum less 999,500: 500, if the sum is kept at a million; the time law holds, if it is a million. */
+    /** By the law worth: 500, if the sum is kept at a million; by the law time: it is that, and no more than that. */
     private static void most(String sum, int is) {
         Counted x = Check.of(HEAD + "worth : (" + sum + ") - 999 * 999 - 999 - 500;");
         Check.due("worth by " + sum, x.worth(0, 0), is - 998001 - 1499);
-        x = Check.of(HEAD + "merchant 0;merchant 0;letter 0 to 1 of 1 at 0;time : " + sum + " = 999 * 999 + 999 + 500 + "
+        x = Check.of(HEAD + "merchant 0;merchant 0;letter 0 to 1 of 1 at 0;time : " + sum
+            + " = 999 * 999 + 999 + 500 + "
             + (is - 999500) + ";");
         Check.due("time by " + sum, x.hold(1, false), 0);
-        x = Check.of(HEAD + "merchant 0;merchant 0;letter 0 to 1 of 1 at 0;time : " + sum + " > 999 * 999 + 999 + 500 + "
+        x = Check.of(HEAD + "merchant 0;merchant 0;letter 0 to 1 of 1 at 0;time : " + sum
+            + " > 999 * 999 + 999 + 500 + "
             + (is - 999500) + ";");
         Check.due("time above " + sum, x.hold(1, false), 1);
     }
@@ -61,10 +64,12 @@ public final class FairBoundsTest {
     private static void least(String sum, int is) {
         Counted x = Check.of(HEAD + "worth : (" + sum + ") + 999 * 999 + 999 + 999 + 501;");
         Check.due("worth by " + sum, x.worth(0, 0), is + 998001 + 2499);
-        x = Check.of(HEAD + "merchant 0;merchant 0;letter 0 to 1 of 1 at 0;time : " + sum + " < 0 - 999 * 999 - 999 - 500 - "
+        x = Check.of(HEAD + "merchant 0;merchant 0;letter 0 to 1 of 1 at 0;time : " + sum
+            + " < 0 - 999 * 999 - 999 - 500 - "
             + (-is - 999501) + ";");
         Check.due("time by " + sum, x.hold(1, false), 0);
-        x = Check.of(HEAD + "merchant 0;merchant 0;letter 0 to 1 of 1 at 0;time : " + sum + " < 0 - 999 * 999 - 999 - 500 - "
+        x = Check.of(HEAD + "merchant 0;merchant 0;letter 0 to 1 of 1 at 0;time : " + sum
+            + " < 0 - 999 * 999 - 999 - 500 - "
             + (-is - 999500) + ";");
         Check.due("time below " + sum, x.hold(1, false), 1);
     }
@@ -100,7 +105,8 @@ public final class FairBoundsTest {
 
     private static void shorts() {
         Check.says("(1) DUE are those whose FAIR this is.");
-        Counted x = Check.of(HEAD + "merchant 9;merchant 0;letter 0 to 1 of 1 at 0;letter 0 to 1 of 2 at 1;letter 0 to 1 of 4 at 2;");
+        Counted x = Check.of(HEAD + "merchant 9;merchant 0;letter 0 to 1 of 1 at 0;letter 0 to 1 of 2 at 1;"
+            + "letter 0 to 1 of 4 at 2;");
         x.hold(1, false);
         Check.cash(x, 8, 1);
         Check.due("owed", x.count(5), 6);
@@ -109,11 +115,35 @@ public final class FairBoundsTest {
         x.hold(1, false);
         Check.cash(x, 2, 7);
 
+        Check.says("A FAIR, of letters that aren't PAID or VOID:");
+        x = Check.of(HEAD + "merchant 9;merchant 0;merchant 0;letter 0 to 1 of 4 at 0;letter 0 to 1 of 5 at 0;"
+            + "letter 2 to 0 of 1 at 0;letter 0 to 2 of 9 at 1;letter 2 to 1 of 7 at 1;");
+        x.pay(0);
+        Check.due("2 breaks", x.hold(1, false), 1);
+        Check.cash(x, 0, 9, 0);
+        // of the letters by and to 2 none is paid, nor is letter 0 once more
+        Check.due("nobody", x.hold(1, false), 0);
+        Check.cash(x, 0, 9, 0);
+        Check.due("owed", x.count(5), 0);
+
+        Check.says("(2) NET of a MERCHANT that isn't BROKEN: all it is owed by DUE ones, less all it owes by DUE "
+            + "ones.");
+        x = Check.of(HEAD + "merchant 9;merchant 9;merchant 9;letter 0 to 1 of 4 at 0;letter 2 to 0 of 2 at 0;"
+            + "letter 0 to 2 of 1 at 0;letter 1 to 0 of 3 at 1;letter 0 to 1 of 6 at 20;");
+        int[][] nets = {{-3, 4, -1}, {3, -3, 0}, {0, 0, 0}, {-6, 6, 0}};
+        int[] ins = {0, 1, 2, 20};
+        for (int i = 0; i < 4; i++) {
+            for (int m = 0; m < 3; m++) Check.due("net(" + m + ", " + ins[i] + ")", x.net(m, ins[i]), nets[i][m]);
+        }
+        x.hold(1, false);
+        Check.cash(x, 6, 13, 8);
+
         Check.says("All whose CASH and NET together are below 0 are SHORT, at once");
         for (int cash = 0; cash <= 3; cash++) {
             for (int owed = 1; owed <= 3; owed++) {
                 for (int owes = 1; owes <= 7; owes++) {
-                    x = Check.of(HEAD + "merchant " + cash + ";merchant 50;letter 1 to 0 of " + owed + " at 0;letter 0 to 1 of "
+                    x = Check.of(HEAD + "merchant " + cash + ";merchant 50;letter 1 to 0 of " + owed
+                        + " at 0;letter 0 to 1 of "
                         + owes + " at 0;");
                     boolean breaks = cash + owed - owes < 0;
                     Check.due(cash + " and " + owed + " less " + owes, x.hold(1, false), breaks ? 1 : 0);
@@ -126,15 +156,16 @@ public final class FairBoundsTest {
         Check.due("both", x.hold(1, false), 2);
         Check.due("both", x.count(3), 3);
         // 1 is short only behind 0
-        x = Check.of(HEAD + "merchant 0;merchant 0;merchant 0;letter 0 to 1 of 5 at 0;letter 1 to 2 of 5 at 0;time : who = 0;");
+        x = Check.of(HEAD + "merchant 0;merchant 0;merchant 0;letter 0 to 1 of 5 at 0;letter 1 to 2 of 5 at 0;"
+            + "time : who = 0;");
         Check.due("1 breaks", x.hold(1, false), 1);
         Check.due("1 breaks", x.count(3), 2);
         Check.due("0's letter to it is void", x.letter(0, 4), 2);
 
-        Check.says("is given TIME, if the law time holds (without one: never): all DUE letters by which it owes are DUE a FAIR later "
-            + "(and no more now)");
-        String text = HEAD + "merchant 1;merchant 9;letter 0 to 1 of 5 at 0;letter 0 to 1 of 6 at 0;letter 1 to 0 of 3 at 0;"
-            + "letter 0 to 1 of 1 at 1;letter 0 to 1 of 1 at 2;";
+        Check.says("is given TIME, if the law time holds (without one: never): all DUE letters by which it owes are "
+            + "DUE a FAIR later (and no more now)");
+        String text = HEAD + "merchant 1;merchant 9;letter 0 to 1 of 5 at 0;letter 0 to 1 of 6 at 0;"
+            + "letter 1 to 0 of 3 at 0;letter 0 to 1 of 1 at 1;letter 0 to 1 of 1 at 2;";
         Check.due("without", Check.of(text).hold(1, false), 1);
         Check.due("it doesn't hold", Check.of(text + "time : 1 = 2;").hold(1, false), 1);
         x = Check.of(text + "time : 1 = 1;");
@@ -144,8 +175,9 @@ public final class FairBoundsTest {
         Check.cash(x, 4, 6);
 
         Check.says("else it BREAKS: all letters by it and to it, DUE or not, are VOID.");
-        x = Check.of(HEAD + "merchant 4;merchant 9;merchant 9;letter 0 to 1 of 4 at 0;letter 0 to 1 of 1 at 1;letter 1 to 0 of 1 at 2;"
-            + "letter 0 to 2 of 3 at 20;letter 2 to 0 of 3 at 20;letter 1 to 2 of 3 at 1;letter 2 to 1 of 3 at 20;");
+        x = Check.of(HEAD + "merchant 4;merchant 9;merchant 9;letter 0 to 1 of 4 at 0;letter 0 to 1 of 1 at 1;"
+            + "letter 1 to 0 of 1 at 2;letter 0 to 2 of 3 at 20;letter 2 to 0 of 3 at 20;letter 1 to 2 of 3 at 1;"
+            + "letter 2 to 1 of 3 at 20;");
         Check.due("nobody", x.hold(1, false), 0);
         Check.due("0", x.hold(1, false), 1);
         int[] states = {1, 2, 2, 2, 2, 1, 0};
@@ -153,23 +185,25 @@ public final class FairBoundsTest {
         Check.due("its cash stays", x.merchant(0, 0), 0);
 
         Check.says("who: its number, cash: CASH, short: by how much it is below 0, as all was found SHORT.");
-        text = HEAD + "merchant 3;merchant 2;merchant 4;letter 0 to 1 of 9 at 0;letter 1 to 0 of 1 at 0;letter 2 to 1 of 7 at 0;";
+        text = HEAD + "merchant 3;merchant 2;merchant 4;letter 0 to 1 of 9 at 0;letter 1 to 0 of 1 at 0;"
+            + "letter 2 to 1 of 7 at 0;";
         // 0: 3 - 8, short by 5; 1: 2 + 15; 2: 4 - 7, short by 3, with 4, though 0 broke ahead of it
         Check.due("0 has time", Check.of(text + "time : who=0 and cash=3 and short=5;").hold(1, false), 1);
         Check.due("2 has time", Check.of(text + "time : who=2 and cash=4 and short=3;").hold(1, false), 1);
         Check.due("both have", Check.of(text + "time : cash=who*2 - 0*short or who=0 and short=5;").hold(1, false), 0);
         // 0 breaks; then 1 is short by 4: it was found short then
-        x = Check.of(HEAD + "merchant 0;merchant 2;merchant 0;letter 0 to 1 of 5 at 0;letter 1 to 2 of 6 at 0;time : short=4;");
+        x = Check.of(HEAD + "merchant 0;merchant 2;merchant 0;letter 0 to 1 of 5 at 0;letter 1 to 2 of 6 at 0;"
+            + "time : short=4;");
         Check.due("0 breaks", x.hold(1, false), 1);
         Check.due("1 has time", x.letter(1, 3), 0);
 
         Check.says("Then (2) once more, till none is SHORT.");
-        x = Check.of(HEAD + "merchant 0;".repeat(6) + "letter 4 to 5 of 5 at 0;letter 3 to 4 of 5 at 0;letter 2 to 3 of 5 at 0;"
-            + "letter 1 to 2 of 5 at 0;letter 0 to 1 of 5 at 0;");
+        x = Check.of(HEAD + "merchant 0;".repeat(6) + "letter 4 to 5 of 5 at 0;letter 3 to 4 of 5 at 0;"
+            + "letter 2 to 3 of 5 at 0;letter 1 to 2 of 5 at 0;letter 0 to 1 of 5 at 0;");
         Check.due("five, one behind the other", x.hold(1, false), 5);
         Check.due("five", x.count(3), 31);
-        x = Check.of(HEAD + "merchant 0;".repeat(6) + "letter 4 to 5 of 5 at 0;letter 3 to 4 of 5 at 0;letter 2 to 3 of 5 at 0;"
-            + "letter 1 to 2 of 5 at 0;letter 0 to 1 of 5 at 0;time : 1 = 1;");
+        x = Check.of(HEAD + "merchant 0;".repeat(6) + "letter 4 to 5 of 5 at 0;letter 3 to 4 of 5 at 0;"
+            + "letter 2 to 3 of 5 at 0;letter 1 to 2 of 5 at 0;letter 0 to 1 of 5 at 0;time : 1 = 1;");
         Check.due("time for five", x.hold(1, false), 0);
         Check.due("all later", x.due(0), 31);
         x = Check.of(HEAD + "merchant 1;merchant 0;merchant 0;letter 0 to 1 of 1 at 0;letter 1 to 2 of 1 at 0;");
@@ -186,6 +220,7 @@ public final class FairBoundsTest {
     private static final String LATE = HEAD + "merchant 99;merchant 99;letter 0 to 1 of 1 at 0 late ";
 
     private static void lates() {
+        Check.says("it is late, if DRAW modulo 10 is below how likely that is.");
         Check.says("whether it is late (if late is 0, nothing is drawn): it is DUE a FAIR later then.");
         for (int likely = 0; likely <= 9; likely++) {
             for (int drawn = 0; drawn <= 9; drawn++) {
@@ -195,7 +230,8 @@ public final class FairBoundsTest {
                     Counted x = Check.of(LATE + likely + ";");
                     x.seed(seed);
                     x.hold(1, true);
-                    Check.due("late " + likely + ", drawn " + drawn + " of " + next(seed), x.letter(0, 4), drawn < likely ? 0 : 1);
+                    Check.due("late " + likely + ", drawn " + drawn + " of " + next(seed), x.letter(0, 4),
+                        drawn < likely ? 0 : 1);
                     Check.due("it is here", x.letter(0, 3), drawn < likely ? 0 : -1);
                     Check.due("x", x.seed(0), likely == 0 ? seed : next(seed));
                 }
@@ -214,9 +250,9 @@ public final class FairBoundsTest {
 
         Check.says("it is drawn of each letter whose FAIR this is, that isn't PAID or VOID, by numbers");
         // 0 is paid, 1 void, 2 not due, 3 due and never late: 4 and 5 are drawn of
-        String text = HEAD + "merchant 50;merchant 50;merchant 0;letter 0 to 1 of 1 at 1 late 5;letter 0 to 2 of 1 at 1 late 5;"
-            + "letter 0 to 1 of 1 at 2 late 5;letter 0 to 1 of 1 at 1;letter 0 to 1 of 1 at 1 late 5;letter 0 to 1 of 1 at 1 late 5;"
-            + "letter 2 to 0 of 1 at 0;";
+        String text = HEAD + "merchant 50;merchant 50;merchant 0;letter 0 to 1 of 1 at 1 late 5;"
+            + "letter 0 to 2 of 1 at 1 late 5;letter 0 to 1 of 1 at 2 late 5;letter 0 to 1 of 1 at 1;"
+            + "letter 0 to 1 of 1 at 1 late 5;letter 0 to 1 of 1 at 1 late 5;letter 2 to 0 of 1 at 0;";
         for (int seed = 0; seed < 40; seed++) {
             Counted x = Check.of(text);
             x.pay(0);
@@ -256,28 +292,35 @@ public final class FairBoundsTest {
     // ---- promises 5 to 7
 
     private static void asked() {
-        Check.says("Of a MERCHANT, what 0: CASH, 1: 1 if BROKEN, else 0, 2: all it owes by letters that aren't PAID or VOID, 3: all it "
-            + "is owed by such. -2.");
-        Counted x = Check.of(HEAD + "merchant 20;merchant 0;merchant 1;letter 0 to 2 of 1 at 0;letter 0 to 2 of 2 at 20;"
-            + "letter 2 to 0 of 999 at 9;letter 0 to 1 of 8 at 5;letter 1 to 0 of 3 at 0;letter 2 to 0 of 999 at 10;");
+        Check.says("Of a MERCHANT, what 0: CASH, 1: 1 if BROKEN, else 0, 2: all it owes by letters that aren't PAID "
+            + "or VOID, 3: all it is owed by such. -2.");
+        Counted x = Check.of(HEAD + "merchant 20;merchant 0;merchant 1;letter 0 to 2 of 1 at 0;"
+            + "letter 0 to 2 of 2 at 20;letter 2 to 0 of 999 at 9;letter 0 to 1 of 8 at 5;letter 1 to 0 of 3 at 0;"
+            + "letter 2 to 0 of 999 at 10;");
         int[][] ahead = {{20, 0, 11, 2001}, {0, 0, 3, 8}, {1, 0, 1998, 3}};
         int[][] behind = {{19, 0, 2, 1998}, {0, 1, 0, 0}, {2, 0, 1998, 2}};
         merchants(x, ahead);
         Check.due("1 breaks", x.hold(1, false), 1);
         merchants(x, behind);
-        for (int what : new int[] {-1, 4, Integer.MIN_VALUE, Integer.MAX_VALUE}) Check.due("what", x.merchant(0, what), -2);
-        for (int m : new int[] {-1, 3, Integer.MIN_VALUE, Integer.MAX_VALUE}) Check.due("merchant", x.merchant(m, 0), -2);
+        for (int what : new int[] {-1, 4, Integer.MIN_VALUE, Integer.MAX_VALUE}) {
+            Check.due("what", x.merchant(0, what), -2);
+        }
+        for (int m : new int[] {-1, 3, Integer.MIN_VALUE, Integer.MAX_VALUE}) {
+            Check.due("merchant", x.merchant(m, 0), -2);
+        }
 
-        Check.says("Of a letter, what 0: who owes, 1: whom, 2: how much (0: PAID, VOID), 3: in how many FAIRS it is DUE (0: here; "
-            + "NONE: it is PAID, VOID), 4: 0 owed, 1 PAID, 2 VOID, 5: how likely late. -2.");
-        x = Check.of(HEAD + "merchant 999;merchant 0;merchant 0;letter 0 to 1 of 999 at 0 late 9;letter 2 to 0 of 1 at 0 late 1;"
-            + "letter 1 to 0 of 5 at 20;letter 0 to 1 of 3 at 1 late 2;");
+        Check.says("Of a letter, what 0: who owes, 1: whom, 2: how much (0: PAID, VOID), 3: in how many FAIRS it is "
+            + "DUE (0: here; NONE: it is PAID, VOID), 4: 0 owed, 1 PAID, 2 VOID, 5: how likely late. -2.");
+        x = Check.of(HEAD + "merchant 999;merchant 0;merchant 0;letter 0 to 1 of 999 at 0 late 9;"
+            + "letter 2 to 0 of 1 at 0 late 1;letter 1 to 0 of 5 at 20;letter 0 to 1 of 3 at 1 late 2;");
         int[][] first = {{0, 1, 999, 0, 0, 9}, {2, 0, 1, 0, 0, 1}, {1, 0, 5, 20, 0, 0}, {0, 1, 3, 1, 0, 2}};
         int[][] then = {{0, 1, 0, -1, 1, 9}, {2, 0, 0, -1, 2, 1}, {1, 0, 5, 19, 0, 0}, {0, 1, 3, 0, 0, 2}};
         letters(x, first);
         Check.due("2 breaks", x.hold(1, false), 1);
         letters(x, then);
-        for (int what : new int[] {-1, 6, Integer.MIN_VALUE, Integer.MAX_VALUE}) Check.due("what", x.letter(0, what), -2);
+        for (int what : new int[] {-1, 6, Integer.MIN_VALUE, Integer.MAX_VALUE}) {
+            Check.due("what", x.letter(0, what), -2);
+        }
         for (int l : new int[] {-1, 4, Integer.MIN_VALUE, Integer.MAX_VALUE}) Check.due("letter", x.letter(l, 0), -2);
 
         Check.says("What a MONEY is WORTH in n FAIRS (0 to 999). -2; -3.");
@@ -295,20 +338,24 @@ public final class FairBoundsTest {
 
     private static void merchants(Counted x, int[][] told) {
         for (int m = 0; m < told.length; m++) {
-            for (int what = 0; what < 4; what++) Check.due("merchant(" + m + ", " + what + ")", x.merchant(m, what), told[m][what]);
+            for (int what = 0; what < 4; what++) {
+                Check.due("merchant(" + m + ", " + what + ")", x.merchant(m, what), told[m][what]);
+            }
         }
     }
 
     private static void letters(Counted x, int[][] told) {
         for (int l = 0; l < told.length; l++) {
-            for (int what = 0; what < 6; what++) Check.due("letter(" + l + ", " + what + ")", x.letter(l, what), told[l][what]);
+            for (int what = 0; what < 6; what++) {
+                Check.due("letter(" + l + ", " + what + ")", x.letter(l, what), told[l][what]);
+            }
         }
     }
 
     // ---- promises 8 to 13
 
-    private static final String THREE = HEAD + "merchant 50;merchant 10;merchant 0;letter 0 to 1 of 20 at 0;letter 1 to 2 of 10 at 3;"
-        + "letter 2 to 0 of 5 at 1;";
+    private static final String THREE = HEAD + "merchant 50;merchant 10;merchant 0;letter 0 to 1 of 20 at 0;"
+        + "letter 1 to 2 of 10 at 3;letter 2 to 0 of 5 at 1;";
 
     private static void deeds() {
         Check.says("x is this: what it was.");
@@ -318,8 +365,8 @@ public final class FairBoundsTest {
         Check.due("seed", x.seed(-1), Integer.MAX_VALUE);
         Check.due("seed", x.seed(0), -1);
 
-        Check.says("A letter is WRITTEN: its number. -2: a MERCHANT, both one; -3: how much (1 to 999), in how many FAIRS (0 to 20); "
-            + "-4: there are 12; -5: one is BROKEN.");
+        Check.says("A letter is WRITTEN: its number. -2: a MERCHANT, both one;"
+            + " -3: how much (1 to 999), in how many FAIRS (0 to 20); -4: there are 12; -5: one is BROKEN.");
         x = Check.of(HEAD + "merchant 999;merchant 1;fair 5;");
         Check.due("the first", x.write(0, 1, 1, 0), 0);
         Check.due("the second", x.write(1, 0, 999, 20), 1);
@@ -330,12 +377,46 @@ public final class FairBoundsTest {
         Check.due("there are 12", x.count(4), 12);
         x.pay(0);
         Check.due("paid ones are there too", x.write(0, 1, 1, 0), -4);
-        for (int[] bad : new int[][] {{-1, 0, 1, 0}, {0, -1, 1, 0}, {2, 0, 1, 0}, {0, 2, 1, 0}, {0, 0, 1, 0}, {1, 1, 1, 0}}) {
+        for (int[] bad : new int[][] {{-1, 0, 1, 0}, {0, -1, 1, 0}, {2, 0, 1, 0}, {0, 2, 1, 0}, {0, 0, 1, 0},
+            {1, 1, 1, 0}}) {
             Check.due("merchants", x.write(bad[0], bad[1], bad[2], bad[3]), -2);
         }
-        for (int[] bad : new int[][] {{0, 0}, {1000, 0}, {-1, 0}, {1, -1}, {1, 21}, {Integer.MAX_VALUE, 0}, {1, Integer.MIN_VALUE}}) {
+        for (int[] bad : new int[][] {{0, 0}, {1000, 0}, {-1, 0}, {1, -1}, {1, 21}, {Integer.MAX_VALUE, 0},
+            {1, Integer.MIN_VALUE}}) {
             Check.due("how much, in", x.write(0, 1, bad[0], bad[1]), -3);
         }
+
+        Check.says("To WRITE a letter: DUE in so many FAIRS (0: at this one).");
+        x = Check.of(HEAD + "merchant 99;merchant 1;fair 5;");
+        x.write(0, 1, 10, 0);
+        x.write(0, 1, 20, 1);
+        x.write(0, 1, 40, 20);
+        Check.due("due(0)", x.due(0), 1);
+        Check.due("due(1)", x.due(1), 2);
+        Check.due("due(20)", x.due(20), 4);
+        x.hold(1, false);
+        Check.cash(x, 89, 11);
+        x.hold(19, false);
+        Check.cash(x, 69, 31);
+        x.hold(1, false);
+        Check.cash(x, 29, 71);
+
+        Check.says("To PAY a letter, ahead of its FAIR too: CASH from who owes to who is owed.");
+        x = Check.of(HEAD + "merchant 9;merchant 1;letter 0 to 1 of 4 at 20;letter 0 to 1 of 5 at 0;");
+        Check.due("pay(0)", x.pay(0), 4);
+        Check.due("pay(1)", x.pay(1), 5);
+        Check.cash(x, 0, 10);
+        Check.due("nobody owes anything", x.hold(20, false), 0);
+        Check.cash(x, 0, 10);
+
+        Check.says("To LEND: CASH from one to another one, neither BROKEN.");
+        x = Check.of(HEAD + "merchant 9;merchant 1;merchant 5;letter 1 to 0 of 2 at 0;");
+        Check.due("from one that isn't", x.lend(1, 2, 1), 0);
+        Check.due("1 breaks", x.hold(1, false), 1);
+        Check.due("to a broken one", x.lend(0, 1, 1), -12);
+        Check.due("from a broken one", x.lend(1, 0, 1), -12);
+        Check.due("of two others", x.lend(0, 2, 9), 0);
+        Check.cash(x, 0, 0, 15);
 
         Check.says("A letter is PAID: how much it was of. -11 to -13.");
         x = Check.of(THREE);
@@ -359,7 +440,9 @@ public final class FairBoundsTest {
         Check.due("none left", x.lend(0, 1, 1), -13);
         Check.due("999", x.lend(1, 2, 999), 3);
         Check.cash(x, 0, 3, 999);
-        for (int n : new int[] {0, -1, 1000, Integer.MIN_VALUE, Integer.MAX_VALUE}) Check.due("n " + n, x.lend(2, 0, n), -11);
+        for (int n : new int[] {0, -1, 1000, Integer.MIN_VALUE, Integer.MAX_VALUE}) {
+            Check.due("n " + n, x.lend(2, 0, n), -11);
+        }
         for (int m : new int[] {-1, 3, Integer.MIN_VALUE, Integer.MAX_VALUE}) {
             Check.due("to " + m, x.lend(2, m, 1), -11);
             Check.due("from " + m, x.lend(m, 2, 1), -11);
@@ -367,8 +450,8 @@ public final class FairBoundsTest {
         Check.due("both one", x.lend(2, 2, 1), -11);
 
         Check.says("n FAIRS (1 to 20) are held, with MULES, or without: how many BROKE. -3.");
-        x = Check.of(HEAD + "merchant 0;".repeat(6) + "letter 0 to 5 of 1 at 0;letter 1 to 5 of 1 at 1;letter 2 to 5 of 1 at 19;"
-            + "letter 3 to 5 of 1 at 20;");
+        x = Check.of(HEAD + "merchant 0;".repeat(6) + "letter 0 to 5 of 1 at 0;letter 1 to 5 of 1 at 1;"
+            + "letter 2 to 5 of 1 at 19;letter 3 to 5 of 1 at 20;");
         Check.due("hold 0", x.hold(0, false), -3);
         Check.due("hold 21", x.hold(21, true), -3);
         Check.due("hold -1", x.hold(-1, false), -3);
@@ -379,13 +462,13 @@ public final class FairBoundsTest {
         Check.due("fair", x.count(6), 22);
     }
 
-    private static final String ROUND = HEAD + "merchant 0;".repeat(6) + "letter 0 to 1 of 2 at 0;letter 1 to 2 of 3 at 20;"
-        + "letter 2 to 3 of 4 at 1;letter 3 to 4 of 5 at 2;letter 4 to 5 of 6 at 3;letter 5 to 0 of 7 at 4;letter 1 to 0 of 2 at 0;"
-        + "letter 0 to 1 of 1 at 0;letter 1 to 0 of 1 at 0;";
+    private static final String ROUND = HEAD + "merchant 0;".repeat(6) + "letter 0 to 1 of 2 at 0;"
+        + "letter 1 to 2 of 3 at 20;letter 2 to 3 of 4 at 1;letter 3 to 4 of 5 at 2;letter 4 to 5 of 6 at 3;"
+        + "letter 5 to 0 of 7 at 4;letter 1 to 0 of 2 at 0;letter 0 to 1 of 1 at 0;letter 1 to 0 of 1 at 0;";
 
     private static void rings() {
-        Check.says("A RING: letters (2 to 6, unlike; MERCHANTS may come twice), each owed to who owes the next one, the last one to who "
-            + "owes the first");
+        Check.says("A RING: letters (2 to 6, unlike; MERCHANTS may come twice), each owed to who owes the next one, "
+            + "the last one to who owes the first");
         Counted x = Check.of(ROUND);
         ring(x, -11);
         ring(x, -11, 0);
@@ -401,6 +484,7 @@ public final class FairBoundsTest {
         ring(x, -11, 0, 9);
         ring(x, -11, 0, -1);
         Check.due("nothing is done", x.count(8), 0);
+        Check.says("to CANCEL it: each is of so much less as the least of them is of;");
         ring(x, 2, 0, 1, 2, 3, 4, 5);
         int[] left = {0, 1, 2, 3, 4, 5, 2, 1, 1};
         for (int l = 0; l < 9; l++) Check.due("letter " + l, x.letter(l, 2), left[l]);
@@ -433,9 +517,9 @@ public final class FairBoundsTest {
     // ---- promise 14
 
     private static void undoing() {
-        Check.says("Calls of seed(), write(), pay(), lend(), cancel(), hold() that aren't refused (even if all is as it was), of "
-            + "perform(), year() that did one thing at least, can be UNDONE each as a whole, the latest first, 10 at most (eldest are "
-            + "forgotten): CASH, who is BROKEN, letters, the FAIR, x.");
+        Check.says("Calls of seed(), write(), pay(), lend(), cancel(), hold() that aren't refused (even if all is as "
+            + "it was), of perform(), year() that did one thing at least, can be UNDONE each as a whole, the latest "
+            + "first, 10 at most (eldest are forgotten): CASH, who is BROKEN, letters, the FAIR, x.");
         long[][] seen = new long[DONE + 1][];
         for (int i = 0; i <= DONE; i++) seen[i] = Whole.now(done(i));
         for (int i = 0; i <= DONE; i++) {

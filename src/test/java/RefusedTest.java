@@ -23,12 +23,14 @@ public final class RefusedTest {
     // ---- what the calls are tried on
 
     /**
-     * Four merchants, 2 broken; so many letters, 0 paid, 1 and 2 void, 3 to 6 owed by merchants of 9 and 9 and 60 coppers; trays: 0
-     * with deeds, 1 seen, 2 no ring, 3 missing; image 1 made, 0 not; one call to undo; a faulty text read last; 20 bytes of tape.
+     * Four merchants, 2 broken; so many letters, 0 paid, 1 and 2 void, 3 to 6 owed by merchants of 9 and 9 and 60
+     * coppers; trays: 0 with deeds, 1 seen, 2 no ring, 3 missing; image 1 made, 0 not; one call to undo; a faulty text
+     * read last; 20 bytes of tape.
      */
     private static Counted made(int letters) {
-        StringBuilder s = new StringBuilder("fairs 3 moneys 2;worth : 5 + fair + money;time : who = 3;fair 4;merchant 29;merchant 9;merchant 0;"
-            + "merchant 40;letter 0 to 3 of 20 at 0;letter 1 to 2 of 4 at 1;letter 2 to 0 of 1 at 0;letter 0 to 1 of 9 at 1;letter 1 to 0 of 10 at 1;"
+        StringBuilder s = new StringBuilder("fairs 3 moneys 2;worth : 5 + fair + money;time : who = 3;fair 4;"
+            + "merchant 29;merchant 9;merchant 0;merchant 40;letter 0 to 3 of 20 at 0;letter 1 to 2 of 4 at 1;"
+            + "letter 2 to 0 of 1 at 0;letter 0 to 1 of 9 at 1;letter 1 to 0 of 10 at 1;"
             + "letter 3 to 1 of 70 at 1 late 5;letter 1 to 3 of 5 at 4 late 3;");
         for (int l = 7; l < letters; l++) s.append("letter 0 to 1 of 1 at 9;");
         Counted x = Check.of(s.toString());
@@ -71,9 +73,11 @@ public final class RefusedTest {
     private static long[] all(Counted x) {
         List<long[]> parts = new ArrayList<>();
         parts.add(Whole.now(x));
-        parts.add(new long[] {x.count(8), x.count(9), x.fault(0), x.fault(1), x.due(8), x.broken(3), x.worth(x.count(1) - 1, 1)});
+        parts.add(new long[] {x.count(8), x.count(9), x.fault(0), x.fault(1), x.due(8), x.broken(3),
+            x.worth(x.count(1) - 1, 1)});
         for (int tray = 0; tray < 4; tray++) {
-            parts.add(new long[] {x.judge(tray, 0), x.judge(tray, 1), x.judge(tray, 2), x.judge(tray, 3), x.missing(tray), x.look(tray),
+            parts.add(new long[] {x.judge(tray, 0), x.judge(tray, 1), x.judge(tray, 2), x.judge(tray, 3),
+                x.missing(tray), x.look(tray),
                 x.cancel(tray)});
         }
         long x0 = x.seed(1);
@@ -90,7 +94,8 @@ public final class RefusedTest {
             parts.add(Whole.now(x));
         }
         for (int tray = 0; tray < 4; tray++) {
-            parts.add(new long[] {x.put(tray, 0, 1L << 60), x.put(tray, 2, 1L << 20), x.put(tray, 3, 300), x.put(tray, 4, 0)});
+            parts.add(new long[] {x.put(tray, 0, 1L << 60), x.put(tray, 2, 1L << 20), x.put(tray, 3, 300),
+                x.put(tray, 4, 0)});
         }
         int bytes = x.count(9);
         parts.add(new long[] {x.fairs(bytes), x.fault(0), x.fault(1), x.count(9)});
@@ -126,7 +131,8 @@ public final class RefusedTest {
 
     private static void fairs() {
         Check.says("-5: it would have more than 900.");
-        nothingChanges("feed", RefusedTest::taped, x -> x.feed(0x78787878, 0x78787878, 0x78787878, 0x78787878, 0x78787878), -5);
+        nothingChanges("feed", RefusedTest::taped, x -> x.feed(0x78787878, 0x78787878, 0x78787878, 0x78787878,
+            0x78787878), -5);
 
         Check.says("-3: n is below 0 or above what there is (THE TAPE stays); -30 less the FAULT.");
         for (int n : new int[] {-1, 21, LEAST, GREATEST}) refused("fairs(" + n + ")", -3, x -> x.fairs(n));
@@ -152,12 +158,16 @@ public final class RefusedTest {
 
         Check.says("3: all it is owed by such. -2.");
         for (int m : new int[] {-1, 4, LEAST, GREATEST}) refused("merchant(" + m + ", 0)", -2, x -> x.merchant(m, 0));
-        for (int what : new int[] {-1, 4, LEAST, GREATEST}) refused("merchant(0, " + what + ")", -2, x -> x.merchant(0, what));
+        for (int what : new int[] {-1, 4, LEAST, GREATEST}) {
+            refused("merchant(0, " + what + ")", -2, x -> x.merchant(0, what));
+        }
         empty("merchant(0, 0)", -2, x -> x.merchant(0, 0));
         Check.says("5: how likely late. -2.");
         for (int l : new int[] {-1, 11, 12, LEAST, GREATEST}) refused("letter(" + l + ", 0)", -2, x -> x.letter(l, 0));
         full("letter(12, 0)", -2, x -> x.letter(12, 0));
-        for (int what : new int[] {-1, 6, LEAST, GREATEST}) refused("letter(0, " + what + ")", -2, x -> x.letter(0, what));
+        for (int what : new int[] {-1, 6, LEAST, GREATEST}) {
+            refused("letter(0, " + what + ")", -2, x -> x.letter(0, what));
+        }
         empty("letter(0, 0)", -2, x -> x.letter(0, 0));
         Check.says("What a MONEY is WORTH in n FAIRS (0 to 999). -2; -3.");
         for (int m : new int[] {-1, 2, LEAST, GREATEST}) {
@@ -168,9 +178,10 @@ public final class RefusedTest {
     }
 
     private static void deeds() {
-        Check.says("A letter is WRITTEN: its number. -2: a MERCHANT, both one; -3: how much (1 to 999), in how many FAIRS (0 to 20); -4: there are "
-            + "12; -5: one is BROKEN.");
-        for (int[] a : new int[][] {{-1, 0}, {4, 0}, {0, -1}, {0, 4}, {LEAST, 0}, {0, GREATEST}, {0, 0}, {3, 3}, {2, 2}, {2, 4}, {-1, 2}}) {
+        Check.says("A letter is WRITTEN: its number. -2: a MERCHANT, both one;"
+            + " -3: how much (1 to 999), in how many FAIRS (0 to 20); -4: there are 12; -5: one is BROKEN.");
+        for (int[] a : new int[][] {{-1, 0}, {4, 0}, {0, -1}, {0, 4}, {LEAST, 0}, {0, GREATEST}, {0, 0}, {3, 3},
+            {2, 2}, {2, 4}, {-1, 2}}) {
             for (int[] b : new int[][] {{1, 0}, {0, 0}, {1, 21}, {1000, -1}}) {
                 refused("write to " + a[1], -2, x -> x.write(a[0], a[1], b[0], b[1]));
                 full("write to " + a[1], -2, x -> x.write(a[0], a[1], b[0], b[1]));
@@ -183,7 +194,9 @@ public final class RefusedTest {
             }
         }
         for (int[] a : new int[][] {{0, 1}, {2, 1}, {1, 2}}) full("write", -4, x -> x.write(a[0], a[1], 1, 0));
-        for (int[] a : new int[][] {{2, 1}, {1, 2}}) refused("write of one broken", -5, x -> x.write(a[0], a[1], 999, 20));
+        for (int[] a : new int[][] {{2, 1}, {1, 2}}) {
+            refused("write of one broken", -5, x -> x.write(a[0], a[1], 999, 20));
+        }
         empty("write", -2, x -> x.write(0, 1, 1, 0));
 
         Check.says("A letter is PAID: how much it was of. -11 to -13.");
@@ -195,24 +208,31 @@ public final class RefusedTest {
         empty("pay(0)", -11, x -> x.pay(0));
 
         Check.says("n coppers (1 to 999) are LENT: CASH of who lent. -11 (n, too) to -13.");
-        for (int[] a : new int[][] {{-1, 0, 1}, {4, 0, 1}, {0, -1, 1}, {0, 4, 1}, {0, 0, 1}, {2, 2, 1}, {2, 2, 999}, {0, 1, 0}, {0, 1, 1000}, {0, 1, LEAST},
+        for (int[] a : new int[][] {{-1, 0, 1}, {4, 0, 1}, {0, -1, 1}, {0, 4, 1}, {0, 0, 1}, {2, 2, 1}, {2, 2, 999},
+            {0, 1, 0}, {0, 1, 1000}, {0, 1, LEAST},
             {0, 1, GREATEST}, {2, 0, 0}, {0, 2, 1000}, {4, 2, 999}, {1, 0, -1}}) {
             refused("lend of " + a[2] + " from " + a[0] + " to " + a[1], -11, x -> x.lend(a[0], a[1], a[2]));
         }
-        for (int[] a : new int[][] {{2, 0, 1}, {0, 2, 1}, {2, 1, 999}, {1, 2, 999}}) refused("lend of one broken", -12, x -> x.lend(a[0], a[1], a[2]));
-        for (int[] a : new int[][] {{0, 1, 10}, {1, 3, 10}, {3, 0, 61}, {3, 1, 999}}) refused("lend too much", -13, x -> x.lend(a[0], a[1], a[2]));
+        for (int[] a : new int[][] {{2, 0, 1}, {0, 2, 1}, {2, 1, 999}, {1, 2, 999}}) {
+            refused("lend of one broken", -12, x -> x.lend(a[0], a[1], a[2]));
+        }
+        for (int[] a : new int[][] {{0, 1, 10}, {1, 3, 10}, {3, 0, 61}, {3, 1, 999}}) {
+            refused("lend too much", -13, x -> x.lend(a[0], a[1], a[2]));
+        }
         empty("lend", -11, x -> x.lend(0, 1, 1));
 
-        Check.says("The RING of a TRAY is CANCELLED: by how much each letter is less. -2: the TRAY; -6; -11: not 2 to 6 numbers, one is no letter; "
-            + "-12 (a letter told twice, too).");
+        Check.says("The RING of a TRAY is CANCELLED: by how much each letter is less. -2: the TRAY; -6;"
+            + " -11: not 2 to 6 numbers, one is no letter; -12 (a letter told twice, too).");
         for (int tray : new int[] {-1, 4, LEAST, GREATEST}) refused("cancel(" + tray + ")", -2, x -> x.cancel(tray));
         refused("cancel(3)", -6, x -> x.cancel(3));
         refused("cancel(2)", -12, x -> x.cancel(2));
         refused("cancel(0)", -11, x -> x.cancel(0));
         empty("cancel(0)", -6, x -> x.cancel(0));
-        long[][] no = {{}, {3}, {3, 4, 3, 4, 3, 4, 3}, {3, 11}, {-1, 3}, {3, 3, 99}, {0, 11}, {3, 4, 1L << 32}, {1, 1, 1, 1, 1, 1, 1}};
+        long[][] no = {{}, {3}, {3, 4, 3, 4, 3, 4, 3}, {3, 11}, {-1, 3}, {3, 3, 99}, {0, 11}, {3, 4, 1L << 32},
+            {1, 1, 1, 1, 1, 1, 1}};
         for (long[] ring : no) ring("of no letters", -11, ring);
-        long[][] none = {{3, 3}, {3, 4, 3, 4}, {0, 3}, {3, 0}, {1, 2}, {3, 5}, {3, 4, 6}, {4, 6}, {3, 6, 5}, {0, 0}, {3, 4, 4, 3}};
+        long[][] none = {{3, 3}, {3, 4, 3, 4}, {0, 3}, {3, 0}, {1, 2}, {3, 5}, {3, 4, 6}, {4, 6}, {3, 6, 5}, {0, 0},
+            {3, 4, 4, 3}};
         for (long[] ring : none) ring("of no ring", -12, ring);
 
         Check.says("n FAIRS (1 to 20) are held, with MULES, or without: how many BROKE. -3.");
@@ -225,7 +245,9 @@ public final class RefusedTest {
         empty("undo(1)", -3, x -> x.undo(1));
 
         Check.says("3: the FAIR then. -2: the TRAY, what; -6.");
-        for (int tray : new int[] {-1, 4, LEAST, GREATEST}) refused("judge(" + tray + ", 0)", -2, x -> x.judge(tray, 0));
+        for (int tray : new int[] {-1, 4, LEAST, GREATEST}) {
+            refused("judge(" + tray + ", 0)", -2, x -> x.judge(tray, 0));
+        }
         for (int what : new int[] {-1, 4, LEAST, GREATEST}) {
             refused("judge(0, " + what + ")", -2, x -> x.judge(0, what));
             refused("judge of a missing one", -2, x -> x.judge(3, what));
@@ -251,7 +273,9 @@ public final class RefusedTest {
         for (int n : new int[] {-1, 31, LEAST, GREATEST}) refused("due(" + n + ")", -3, x -> x.due(n));
         Check.says("NET of a MERCHANT by these (0: it is BROKEN). -99000002; -99000003: n (0 to 30).");
         for (int m : new int[] {-1, 4, LEAST, GREATEST}) {
-            for (int n : new int[] {0, -1, 31, GREATEST}) refused("net(" + m + ", " + n + ")", -99000002, x -> x.net(m, n));
+            for (int n : new int[] {0, -1, 31, GREATEST}) {
+                refused("net(" + m + ", " + n + ")", -99000002, x -> x.net(m, n));
+            }
         }
         for (int n : new int[] {-1, 31, LEAST, GREATEST}) {
             refused("net(0, " + n + ")", -99000003, x -> x.net(0, n));
@@ -293,7 +317,9 @@ public final class RefusedTest {
             refused("favour(1, " + n + ")", -3, x -> x.favour(1, n));
             empty("favour(1, " + n + "), ahead of NONE", -3, x -> x.favour(1, n));
         }
-        for (int sum : new int[] {0, -1, 1000, LEAST, GREATEST}) refused("favour(" + sum + ", 1)", -3, x -> x.favour(sum, 1));
+        for (int sum : new int[] {0, -1, 1000, LEAST, GREATEST}) {
+            refused("favour(" + sum + ", 1)", -3, x -> x.favour(sum, 1));
+        }
     }
 
     private static void here() {
@@ -303,7 +329,9 @@ public final class RefusedTest {
             empty("ring(" + what + "), ahead of NONE", -2, x -> x.ring(what));
         }
         Check.says("-99000002: no such letter, it isn't DUE here.");
-        for (int l : new int[] {-1, 0, 1, 6, 7, 11, 12, LEAST, GREATEST}) refused("hangs(" + l + ")", -99000002, x -> x.hangs(l));
+        for (int l : new int[] {-1, 0, 1, 6, 7, 11, 12, LEAST, GREATEST}) {
+            refused("hangs(" + l + ")", -99000002, x -> x.hangs(l));
+        }
         empty("hangs(0)", -99000002, x -> x.hangs(0));
         Check.says("ODDS that a MERCHANT BREAKS here. -2; -5: it is BROKEN.");
         for (int m : new int[] {-1, 4, LEAST, GREATEST}) refused("danger(" + m + ")", -2, x -> x.danger(m));
@@ -317,11 +345,17 @@ public final class RefusedTest {
             refused("changing .. " + what, -2, x -> x.changing(0, 1, 0, what));
             refused("changing of 0 over 10 .. " + what, -2, x -> x.changing(0, 0, 10, what));
         }
-        for (int coins : new int[] {0, -1, 1000, LEAST, GREATEST}) refused("changing of " + coins, -3, x -> x.changing(0, coins, 0, 19));
-        for (int n : new int[] {-1, 10, LEAST, GREATEST}) refused("changing over " + n, -3, x -> x.changing(1, 1, n, 19));
+        for (int coins : new int[] {0, -1, 1000, LEAST, GREATEST}) {
+            refused("changing of " + coins, -3, x -> x.changing(0, coins, 0, 19));
+        }
+        for (int n : new int[] {-1, 10, LEAST, GREATEST}) {
+            refused("changing over " + n, -3, x -> x.changing(1, 1, n, 19));
+        }
         Check.says("WORTH then, by WORTH now, in 10,000, cut. -2; -3.");
         for (int money : new int[] {-1, 2, LEAST, GREATEST}) {
-            for (int n : new int[] {0, -1, 100}) refused("interest(" + money + ", " + n + ")", -2, x -> x.interest(money, n));
+            for (int n : new int[] {0, -1, 100}) {
+                refused("interest(" + money + ", " + n + ")", -2, x -> x.interest(money, n));
+            }
         }
         for (int n : new int[] {-1, 100, LEAST, GREATEST}) {
             refused("interest(0, " + n + ")", -3, x -> x.interest(0, n));
@@ -449,7 +483,43 @@ public final class RefusedTest {
         return x >>> 16;
     }
 
+    /** Each call with all at once that it can be refused for, from what it tells first on. */
+    private static void order() {
+        Check.says("(Of several that which the call tells first; all these ahead of NONE.)");
+        full("write of one that isn't", -2, x -> x.write(2, 4, 0, 21));
+        full("write of too much", -3, x -> x.write(2, 1, 0, 21));
+        full("write by one broken", -4, x -> x.write(2, 1, 1, 0));
+        refused("write by one broken", -5, x -> x.write(2, 1, 1, 0));
+        refused("lend nothing to a broken one", -11, x -> x.lend(1, 2, 0));
+        refused("lend too much to a broken one", -12, x -> x.lend(1, 2, 999));
+        ring("of one twice and no letter", -11, 3, 3, 11);
+        ring("of one twice seven times", -11, 3, 3, 3, 3, 3, 3, 3);
+        refused("judge", -2, x -> x.judge(3, 4));
+        refused("worth", -2, x -> x.worth(2, 1000));
+        refused("net", -99000002, x -> x.net(4, 31));
+        refused("net of a broken one", -99000003, x -> x.net(2, 31));
+        refused("coin", -2, x -> x.coin(31, 3));
+        refused("cashIn", -2, x -> x.cashIn(4, 31));
+        refused("chain", -2, x -> x.chain(4, 0));
+        refused("chain of a broken one", -3, x -> x.chain(2, 0));
+        refused("saves", -2, x -> x.saves(4, 0));
+        refused("saves of a broken one", -3, x -> x.saves(2, 0));
+        refused("changing", -2, x -> x.changing(2, 0, 10, 0));
+        refused("changing", -2, x -> x.changing(0, 0, 10, 20));
+        refused("interest", -2, x -> x.interest(2, 100));
+        refused("numbers", -2, x -> x.numbers(0, 4, 41));
+        refused("put", -2, x -> x.put(4, 40, 0));
+        refused("put", -6, x -> x.put(3, 40, 0));
+        empty("pillar, ahead of NONE", -3, x -> x.pillar(0));
+        empty("favour, ahead of NONE", -3, x -> x.favour(0, 1));
+        empty("ring, ahead of NONE", -2, x -> x.ring(16));
+        empty("hangs", -99000002, x -> x.hangs(0));
+        empty("changing, ahead of NONE", -3, x -> x.changing(0, 1, 10, 19));
+        empty("look, ahead of NONE", -6, x -> x.look(0));
+    }
+
     public static void main(String[] args) {
+        order();
         none();
         fairs();
         deeds();

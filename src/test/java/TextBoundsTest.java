@@ -1,4 +1,4 @@
-/** The first part of the document's Terms, the text and its faults, and promises 1 to 7: each bound, sentence by sentence. */
+/** The first part of the document's Terms, the text and its faults, and promises 1 to 4: each bound. */
 public final class TextBoundsTest {
     private static final String HEAD = "fairs 1 moneys 1;";
     private static final String TWO = HEAD + "merchant 0;merchant 0;";
@@ -99,7 +99,8 @@ public final class TextBoundsTest {
     }
 
     private static void grammar() {
-        Check.says("TRUTH: BOTH { or BOTH }; BOTH: UNIT { and UNIT }; UNIT: not UNIT, [ TRUTH ], or SUM, one of = < >, SUM.");
+        Check.says("TRUTH: BOTH { or BOTH }; BOTH: UNIT { and UNIT }; UNIT: not UNIT, [ TRUTH ], or SUM, one of = < "
+            + ">, SUM.");
         Check.good(HEAD + "time:1=1or 1<1and 1>1or not 1=1and[1=1or 1=1and not[1=1]];", 2);
         Check.fault(HEAD + "time:or 1=1;", 2, 22);
         Check.fault(HEAD + "time:and 1=1;", 2, 22);
@@ -123,6 +124,41 @@ public final class TextBoundsTest {
         Check.fault(HEAD + "time:1<=1;", 2, 24);
         Check.fault(HEAD + "time:1<1<1;", 2, 25);
         Check.fault(HEAD + "time:1=1+;", 2, 26);
+
+        // behind a ] there may stand no more than and, or, one more ], the end of the line
+        for (String next : new String[] {"+1", "-1", "*1", "=1", "<1", ">1", "(1)", "[1=1]", "1", "not 1=1", "who",
+            ":", ")", ";;"}) {
+            Check.fault(HEAD + "time:[1=1]" + next + "=1;", 2, HEAD.length() + (next.equals(";;") ? 11 : 10));
+        }
+        // behind a comparison, too, and what its sums go on by
+        for (String next : new String[] {"=1", "<1", ">1", "(1)", "[1=1]", " 1", "not 1=1", "who", ":", ")", "]"}) {
+            Check.fault(HEAD + "time:1=1" + next + ";", 2, HEAD.length() + (next.equals(" 1") ? 9 : 8));
+        }
+        truth("not 1=1", false);
+        truth("not 1=2", true);
+        truth("not not 1=1", true);
+        truth("not 1=2 and 1=1", true);
+        truth("not[1=2 and 1=1]", true);
+        truth("not 1=1 or 1=1", true);
+        truth("not[1=1 or 1=1]", false);
+        truth("1=1 or 1=1 and 1=2", true);
+        truth("[1=1 or 1=1]and 1=2", false);
+        truth("1=2 and 1=1 or 1=1", true);
+        truth("1=2 and[1=1 or 1=1]", false);
+        truth("1=2 or 1=2", false);
+        truth("1=1 or 1=2", true);
+        truth("1=2 or 1=1", true);
+        truth("1=1 or 1=1", true);
+        truth("1=2 and 1=2", false);
+        truth("1=1 and 1=2", false);
+        truth("1=2 and 1=1", false);
+        truth("1=1 and 1=1", true);
+        for (int a = 1; a <= 3; a++) {
+            truth(a + "=2", a == 2);
+            truth(a + "<2", a < 2);
+            truth(a + ">2", a > 2);
+            truth("1-" + a + "<0-1", 1 - a < -1);
+        }
 
         Check.says("SUM: TERM { + TERM | - TERM }; TERM: ATOM { * ATOM };");
         Check.good(HEAD + "worth:1+1-1*1*1-1+(1)*(1+1);", 2);
@@ -148,6 +184,34 @@ public final class TextBoundsTest {
         Check.due("from the left on", x.worth(0, 0), 76);
         x = Check.of("fairs 1 moneys 1;worth:100-20*2*2+3*(1+1)*2;");
         Check.due("* ahead of + and -", x.worth(0, 0), 32);
+    }
+
+    private static void atoms() {
+        Check.says("ATOM: N, ( SUM ), fair, year, in worth money, in time who, cash, short too.");
+        for (int n : new int[] {1, 2, 99, 100, 998, 999}) {
+            Check.due("worth by " + n, Check.of(HEAD + "worth:" + n + ";").worth(0, 0), n);
+            Check.due("worth by it in brackets", Check.of(HEAD + "worth:((" + n + "));").worth(0, 0), n);
+        }
+        Counted x = Check.of("fairs 5 moneys 4;fair 17;worth:fair*100+year*10+money;");
+        Check.due("worth(3, 0)", x.worth(3, 0), 233);
+        Check.due("worth(1, 3)", x.worth(1, 3), 41);
+        // 1 is short by 6 with 3, at fair 2 of year 3
+        String text = "fairs 5 moneys 1;fair 17;merchant 0;merchant 3;letter 1 to 0 of 9 at 0;time:";
+        String[] atoms = {"who", "cash", "short", "fair", "year", "000", "(999)"};
+        int[] values = {1, 3, 6, 2, 3, 0, 999};
+        for (int i = 0; i < atoms.length; i++) {
+            for (int by = -1; by <= 1; by++) {
+                String law = atoms[i] + "=" + (values[i] + by < 0 ? "0-1" : values[i] + by == 1000 ? "999+1"
+                    : "" + (values[i] + by));
+                Check.due("who breaks by " + law, Check.of(text + law + ";").hold(1, false), by == 0 ? 0 : 1);
+            }
+        }
+    }
+
+    /** Whether time is given by this law. */
+    private static void truth(String law, boolean holds) {
+        Counted x = Check.of(TWO + "letter 0 to 1 of 1 at 0;time:" + law + ";");
+        Check.due("who breaks by " + law, x.hold(1, false), holds ? 0 : 1);
     }
 
     private static void nesting() {
@@ -235,14 +299,15 @@ public final class TextBoundsTest {
         Check.fault(TWO + "letter 1 to 1 of 1 at 0;", 3, at + 12);
         Check.fault(TWO + "letter 2 to 2 of 1 at 0;", 3, at + 7);
 
-        Check.says("how much, 1 to 999, in how many FAIRS from the first one on (wherever that is told) it is DUE, 0 to 20;");
+        Check.says("how much, 1 to 999, in how many FAIRS from the first one on (wherever that is told) it is DUE, 0 "
+            + "to 20;");
         Check.good(TWO + "letter 0 to 1 of 1 at 0;letter 0 to 1 of 999 at 20;", 5);
         Check.fault(TWO + "letter 0 to 1 of 0 at 0;", 3, at + 17);
         Check.fault(TWO + "letter 0 to 1 of 1000 at 0;", 1, at + 17);
         Check.fault(TWO + "letter 0 to 1 of 1 at 21;", 3, at + 22);
         Check.fault(TWO + "letter 0 to 1 of 1 at 999;", 3, at + 22);
-        Counted x = Check.of(HEAD + "fair 7;merchant 0;merchant 0;letter 0 to 1 of 1 at 0;letter 0 to 1 of 999 at 20;fair 9;"
-            + "letter 1 to 0 of 3 at 1;fair 999;");
+        Counted x = Check.of(HEAD + "fair 7;merchant 0;merchant 0;letter 0 to 1 of 1 at 0;letter 0 to 1 of 999 at 20;"
+            + "fair 9;letter 1 to 0 of 3 at 1;fair 999;");
         Check.due("the fair", x.count(6), 999);
         Check.due("letter 0 in", x.letter(0, 3), 0);
         Check.due("letter 1 in", x.letter(1, 3), 20);
@@ -278,8 +343,8 @@ public final class TextBoundsTest {
         Check.fault(HEAD + "fair 1000;", 1, 22);
 
         Check.says("Later ones of worth, time, fair count in place of earlier ones.");
-        Counted x = Check.of(TWO + "letter 0 to 1 of 1 at 0;worth : 700 + money;time : 1 = 1;fair 8;"
-            + "worth : 3;time : 1 = 2;fair 0;");
+        Counted x = Check.of(TWO + "letter 0 to 1 of 1 at 0;worth : 700 + money;time : 1 = 1;fair 8;worth : 3;"
+            + "time : 1 = 2;fair 0;");
         Check.due("count(6)", x.count(6), 0);
         Check.due("worth(0, 0)", x.worth(0, 0), 3);
         Check.due("who breaks", x.hold(1, false), 1);
@@ -289,8 +354,8 @@ public final class TextBoundsTest {
     }
 
     private static void tokens() {
-        Check.says("TOKENS, as long as they go on, between them blanks (10, 32): words (small letters), N (1 to 3 digits), the "
-            + "signs ; : + - * ( ) [ ] = < >.");
+        Check.says("TOKENS, as long as they go on, between them blanks (10, 32): words (small letters), N (1 to 3 "
+            + "digits), the signs ; : + - * ( ) [ ] = < >.");
         Check.good("fairs1moneys1;", 1);
         Check.good(" \nfairs \n 1  moneys\n\n1 ; ", 1);
         Check.fault("fa irs 1 moneys 1;", 2, 0);
@@ -351,7 +416,8 @@ public final class TextBoundsTest {
         Check.fault("fairs 1 moneys 1;worth : 1 / 1;", 1, 27);
         Check.fault("fairs 1 moneys 1;time : 1 ! 1;", 1, 26);
 
-        Check.says("2 it can't stand there (the end: the text's length; fairs must be told first, and once; a word of the other law).");
+        Check.says("2 it can't stand there (the end: the text's length; fairs must be told first, and once;"
+            + " a word of the other law).");
         Check.fault("", 2, 0);
         Check.fault("   ", 2, 3);
         Check.fault("fairs 1 moneys 1 \n ", 2, 19);
@@ -379,12 +445,14 @@ public final class TextBoundsTest {
             Check.good(HEAD + "worth:" + word + ";", 2);
             Check.good(HEAD + "time:" + word + "=" + word + ";", 2);
         }
-        for (String word : new String[] {"fairs", "moneys", "merchant", "letter", "to", "of", "at", "late", "worth", "time",
+        for (String word : new String[] {"fairs", "moneys", "merchant", "letter", "to", "of", "at", "late", "worth",
+            "time",
             "or", "and", "x"}) {
             Check.fault(HEAD + "worth:" + word + ";", 2, 23);
             Check.fault(HEAD + "time:" + word + ";", 2, 22);
         }
-        for (String word : new String[] {"moneys", "to", "of", "at", "late", "year", "money", "who", "cash", "short", "not",
+        for (String word : new String[] {"moneys", "to", "of", "at", "late", "year", "money", "who", "cash", "short",
+            "not",
             "and", "or", "fai", "fairss", "merchants", "letters", "a", "z"}) {
             Check.fault(HEAD + word + " 1;", 2, 17);
         }
@@ -408,7 +476,7 @@ public final class TextBoundsTest {
     }
 
     private static void promises() {
-        Check.says("`NextFair()`: 1 FAIR, 1 MONEY, no MERCHANTS.");
+        Check.says("1 FAIR, 1 MONEY, no MERCHANTS.");
         none(new Counted());
         Check.says("`NONE = -1`: There is none.");
         Check.due("NONE", NextFair.NONE, -1);
@@ -425,7 +493,9 @@ public final class TextBoundsTest {
 
         Check.says("-5: it would have more than 900.");
         x = new Counted();
-        for (int i = 1; i <= 45; i++) Check.due("feed", x.feed(0x66616972, 0x73203120, 0x6d6f6e65, 0x79732031, 0x3b202020), 20 * i);
+        for (int i = 1; i <= 45; i++) {
+            Check.due("feed", x.feed(0x66616972, 0x73203120, 0x6d6f6e65, 0x79732031, 0x3b202020), 20 * i);
+        }
         Check.due("feed on a full tape", x.feed(0x25252525, 0x25252525, 0x25252525, 0x25252525, 0x25252525), -5);
         Check.due("count(9)", x.count(9), 900);
         // all there is of the first twenty bytes, then "fairs" once more
@@ -433,8 +503,8 @@ public final class TextBoundsTest {
         Check.due("fault(1)", x.fault(1), 20);
         Check.due("feed on an empty tape", x.feed(0, 0, 0, 0, 0), 20);
 
-        Check.says("The first n bytes of THE TAPE (which is empty then) are THE FAIRS, x is 0, nothing can be UNDONE: how many "
-            + "LINES (fairs, too; with a FAULT THE TAPE is empty, all else stays).");
+        Check.says("The first n bytes of THE TAPE (which is empty then) are THE FAIRS, x is 0, nothing can be "
+            + "UNDONE: how many LINES (fairs, too; with a FAULT THE TAPE is empty, all else stays).");
         x = Check.of(HEAD + "merchant 5;");
         x.seed(9);
         x.image(0);
@@ -456,6 +526,31 @@ public final class TextBoundsTest {
         Check.due("trays", x.put(2, 1, 8), 8);
         Check.due("images", x.restore(0), 0);
         Check.due("images", x.seed(1), 9);
+
+        // what earlier texts told is gone, that of faulty ones, too
+        x = Check.of("fairs 3 moneys 3;fair 9;time : 1 = 1;worth : 77;merchant 5;merchant 0;merchant 1;"
+            + "letter 0 to 1 of 9 at 0 late 4;letter 1 to 0 of 1 at 5 late 9;");
+        Check.due("time", x.hold(1, false), 0);
+        Check.due("a fault", Check.tell(x, "fairs 2 moneys 2;time : 2 = 2;worth : 55;fair 3;merchant 1;merchant 2;"
+            + "letter 0 to 1 of 5 at 7;;"), -32);
+        Check.due("worth", x.worth(2, 0), 77);
+        Check.due("count(6)", x.count(6), 10);
+        Check.due("lines", Check.tell(x, "fairs 1 moneys 1;merchant 3;merchant 4;letter 1 to 0 of 5 at 2;"), 4);
+        int[] counts = {1, 1, 2, 0, 1, 1, 0, 7, 0, 0, 4};
+        for (int i = 0; i < counts.length; i++) Check.due("count(" + i + ")", x.count(i), counts[i]);
+        Check.due("worth", x.worth(0, 0), 10);
+        Check.due("late", x.letter(0, 5), 0);
+        Check.due("in", x.letter(0, 3), 2);
+        Check.due("no time", x.hold(3, false), 1);
+        Check.tell(x, TWO + "worth : 5;letter 0 to 1 of 5 at 0;");
+        Check.due("no time by the law worth", x.hold(1, false), 1);
+        // as many long texts as there can be calls for
+        String sum = "worth:1" + "+1".repeat(420) + ";";
+        x = new Counted();
+        for (int i = 1; i <= 10; i++) {
+            Check.tell(x, "fairs 1 moneys 1;" + sum.replace("+1;", "+" + i + ";"));
+            Check.due("worth of text " + i, x.worth(0, 0), 420 + i);
+        }
 
         Check.says("-3: n is below 0 or above what there is (THE TAPE stays); -30 less the FAULT.");
         x = new Counted();
@@ -497,6 +592,7 @@ public final class TextBoundsTest {
         size();
         lines();
         grammar();
+        atoms();
         nesting();
         head();
         merchants();

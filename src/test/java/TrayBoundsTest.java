@@ -17,7 +17,10 @@ public final class TrayBoundsTest {
     /** Six merchants, twelve letters: 0 owes 1 and 1 owes 0 by turns. */
     private static String twelve() {
         StringBuilder s = new StringBuilder(HEAD).append("merchant 60;".repeat(6));
-        for (int l = 0; l < 12; l++) s.append("letter ").append(l % 2).append(" to ").append(1 - l % 2).append(" of ").append(l + 1).append(" at 9;");
+        for (int l = 0; l < 12; l++) {
+            s.append("letter ").append(l % 2).append(" to ").append(1 - l % 2).append(" of ").append(l
+                + 1).append(" at 9;");
+        }
         return s.toString();
     }
 
@@ -30,12 +33,13 @@ public final class TrayBoundsTest {
     }
 
     private static void numbers() {
-        Check.says("DEEDS in a TRAY: 0 to 99: letter v is PAID; 100 to 199: a RING of two letters (v - 100) by 10 and v modulo 10 is "
-            + "CANCELLED; 1000 to 1099: 10 coppers are LENT by (v - 1000) by 10 to v modulo 10; 2000: a FAIR with MULES; NONE: a FAIR "
-            + "without.");
+        Check.says("DEEDS in a TRAY: 0 to 99: letter v is PAID; 100 to 199: a RING of two letters (v - 100) by 10 "
+            + "and v modulo 10 is CANCELLED; 1000 to 1099: 10 coppers are LENT by (v - 1000) by 10 to v modulo 10;"
+            + " 2000: a FAIR with MULES; NONE: a FAIR without.");
         long[] can = {-1, 0, 11, 101, 110, 189, 198, 1001, 1010, 1005, 1050, 1045, 1054, 2000};
         for (long v : can) deed(Check.of(twelve()), v, 0);
-        long[] none = {-2, 12, 99, 100, 188, 199, 111, 200, 201, 999, 1000, 1055, 1006, 1060, 1056, 1065, 1099, 1100, 1101, 1999, 2001,
+        long[] none = {-2, 12, 99, 100, 188, 199, 111, 200, 201, 999, 1000, 1055, 1006, 1060, 1056, 1065, 1099, 1100,
+            1101, 1999, 2001,
             1L << 32, (1L << 32) + 1, (1L << 32) - 1, -(1L << 32), (1L << 32) + 1001, Long.MIN_VALUE, Long.MAX_VALUE};
         for (long v : none) deed(Check.of(twelve()), v, 1);
         Counted x = Check.of(twelve());
@@ -63,13 +67,16 @@ public final class TrayBoundsTest {
     }
 
     private static void reasons() {
-        Check.says("Why not: 1 no such letter, MERCHANT, number, both one (letters, too); 2 it is PAID, VOID, they are no RING; one is "
-            + "BROKEN; 3 there isn't so much CASH.");
-        String text = HEAD + "merchant 10;merchant 9;merchant 0;merchant 50;letter 2 to 3 of 1 at 0;letter 3 to 2 of 1 at 5;"
-            + "letter 0 to 1 of 11 at 5;letter 1 to 0 of 9 at 5;letter 3 to 0 of 1 at 0;letter 0 to 3 of 10 at 5;letter 0 to 1 of 3 at 1;";
+        Check.says("Why not: 1 no such letter, MERCHANT, number, both one (letters, too);"
+            + " 2 it is PAID, VOID, they are no RING; one is BROKEN; 3 there isn't so much CASH.");
+        String text = HEAD + "merchant 10;merchant 9;merchant 0;merchant 50;letter 2 to 3 of 1 at 0;"
+            + "letter 3 to 2 of 1 at 5;letter 0 to 1 of 11 at 5;letter 1 to 0 of 9 at 5;letter 3 to 0 of 1 at 0;"
+            + "letter 0 to 3 of 10 at 5;letter 0 to 1 of 3 at 1;";
         // behind one fair 2 is broken, 0 has 11, 3 has 49; letters 0 and 1 are void, 4 is paid
-        for (int[] row : new int[][] {{7, 1}, {0, 2}, {1, 2}, {4, 2}, {2, 0}, {3, 0}, {5, 0}, {6, 0}, {123, 0}, {132, 0}, {122, 1}, {144, 1},
-            {127, 1}, {172, 1}, {145, 2}, {154, 2}, {125, 2}, {101, 2}, {126, 2}, {1022, 1}, {1020, 2}, {1002, 2}, {1012, 2}, {1024, 1},
+        for (int[] row : new int[][] {{7, 1}, {0, 2}, {1, 2}, {4, 2}, {2, 0}, {3, 0}, {5, 0}, {6, 0}, {123, 0},
+            {132, 0}, {122, 1}, {144, 1},
+            {127, 1}, {172, 1}, {145, 2}, {154, 2}, {125, 2}, {101, 2}, {126, 2}, {1022, 1}, {1020, 2}, {1002, 2},
+            {1012, 2}, {1024, 1},
             {1042, 1}, {1010, 3}, {1013, 3}, {1001, 0}, {1003, 0}, {1030, 0}, {1000, 1}}) {
             Counted x = Check.of(text);
             Check.due("2 breaks", x.hold(1, false), 1);
@@ -96,9 +103,10 @@ public final class TrayBoundsTest {
     }
 
     private static void judging() {
-        Check.says("DEEDS, judged as if done (and DRAWN), what 0: the first place that can't be (NONE), 1: why (0), 2: who is BROKEN "
-            + "then, as bits, 3: the FAIR then. -2: the TRAY, what; -6.");
-        String text = HEAD + "merchant 0;merchant 0;merchant 0;fair 7;letter 0 to 1 of 1 at 1 late 5;letter 1 to 2 of 2 at 39;";
+        Check.says("DEEDS, judged as if done (and DRAWN), what 0: the first place that can't be (NONE), 1: why (0), "
+            + "2: who is BROKEN then, as bits, 3: the FAIR then. -2: the TRAY, what; -6.");
+        String text = HEAD + "merchant 0;merchant 0;merchant 0;fair 7;letter 0 to 1 of 1 at 1 late 5;"
+            + "letter 1 to 2 of 2 at 39;";
         text = text.replace("39", "20");
         Counted x = Check.of(text);
         Check.tray(x, 0);
@@ -125,6 +133,10 @@ public final class TrayBoundsTest {
             Check.due("judge(0, " + what + ")", x.judge(0, what), -2);
             Check.due("judge(3, " + what + ")", x.judge(3, what), -2);
         }
+        // a tray that can be behind one that can't
+        x.numbers(1, 0, 0);
+        Check.due("judge(1, 1)", x.judge(1, 1), 0);
+        Check.due("judge(1, 0)", x.judge(1, 0), -1);
         // the second draw of a tray goes on from the first
         for (int seed = 0; seed < 40; seed++) {
             x = Check.of(HEAD + "merchant 0;merchant 0;letter 0 to 1 of 1 at 0 late 5;");
@@ -153,6 +165,22 @@ public final class TrayBoundsTest {
         Check.due("as a whole", x.count(8), 1);
         Check.due("perform", x.perform(0), 0);
         Check.due("none is done", x.count(8), 1);
+        // the one that can't be does nothing
+        for (long v : new long[] {4, 0, 1, 2, 3, 100, 101, 121, 112, 104, 1010, 1003, 1030, 1011, 1090, 999}) {
+            x = Check.of(HEAD + "merchant 5;merchant 0;merchant 0;merchant 0;letter 0 to 3 of 5 at 9;"
+                + "letter 0 to 1 of 6 at 9;letter 2 to 1 of 1 at 9;letter 2 to 0 of 1 at 9;letter 3 to 1 of 1 at 0;");
+            x.hold(1, false);
+            Check.tray(x, 0, -1, v);
+            long[] first = Whole.now(x);
+            Check.due("perform of a fair and " + v, x.perform(0), 1);
+            x.hold(1, false);
+            long[] then = Whole.now(x);
+            x.undo(2);
+            x.hold(2, false);
+            Whole.same("a fair alone", then, Whole.now(x));
+            x.undo(1);
+            Whole.same("none", Whole.now(x), first);
+        }
         x = Check.of(HEAD + "merchant 10;merchant 0;");
         Check.tray(x, 0, 1001, 1010, 1001, 1010, -1);
         Check.due("all", x.perform(0), 5);
@@ -166,11 +194,17 @@ public final class TrayBoundsTest {
         Counted x = new Counted();
         for (int times : new int[] {0, -1, 31, LEAST, GREATEST}) Check.due("times " + times, x.year(0, times), -3);
         for (int seed = -30; seed < 30; seed++) {
-            for (int times : new int[] {1, 2, 29, 30}) lend(seed, times);
+            for (int times : new int[] {1, 2, 29, 30}) {
+                lend(seed, times, 1);
+                lend(seed, times, 2);
+                lend(seed, times, 6);
+                one(seed, Math.min(times, 20));
+            }
         }
 
-        Check.says("3 10 coppers are LENT by MERCHANT DRAW modulo MERCHANTS to MERCHANT DRAW modulo MERCHANTS; as in a TRAY, if it can be "
-            + "(without letters 1 and 2, without MERCHANTS 3 is nothing, and no more DRAWS).");
+        Check.says("3 10 coppers are LENT by MERCHANT DRAW modulo MERCHANTS to MERCHANT DRAW modulo MERCHANTS;"
+            + " as in a TRAY, if it can be (without letters 1 and 2, without MERCHANTS 3 is nothing, and no more "
+            + "DRAWS).");
         for (int seed = -30; seed < 30; seed++) {
             for (int merchants = 0; merchants <= 6; merchants++) {
                 x = Check.of(HEAD + "merchant 15;".repeat(merchants));
@@ -221,7 +255,8 @@ public final class TrayBoundsTest {
 
         Check.says("DRAW modulo 4: 0 a FAIR with MULES; 1 letter DRAW modulo letters is PAID;");
         for (int seed = -60; seed < 60; seed++) {
-            x = Check.of(HEAD + "merchant 6;merchant 0;letter 0 to 1 of 1 at 0 late 5;letter 1 to 0 of 1 at 3;letter 0 to 1 of 7 at 5;");
+            x = Check.of(HEAD + "merchant 6;merchant 0;letter 0 to 1 of 1 at 0 late 5;letter 1 to 0 of 1 at 3;"
+                + "letter 0 to 1 of 7 at 5;");
             int v = next(seed);
             int sort = draw(v) % 4;
             if (sort != 0 && sort != 1) continue;
@@ -237,7 +272,8 @@ public final class TrayBoundsTest {
 
         Check.says("A YEAR: how many could be (0: nothing changes, x neither). -3: how many times.");
         int none = 0;
-        while (draw(next(none)) % 4 == 0 || draw(next(next(none))) % 4 == 0 || draw(next(next(next(none)))) % 4 != 0) none++;
+        while (draw(next(none)) % 4 == 0 || draw(next(next(none))) % 4 == 0
+            || draw(next(next(next(none)))) % 4 != 0) none++;
         x = Check.of("fairs 1 moneys 1;");
         x.seed(8);
         Check.due("none of two", x.year(none, 2), 0);
@@ -248,10 +284,11 @@ public final class TrayBoundsTest {
         Check.due("x", x.seed(0), next(next(next(none))));
     }
 
-    /** Two merchants, no letters: fairs and lending alone. */
-    private static void lend(int seed, int times) {
-        Counted x = Check.of(HEAD + "merchant 20;merchant 0;");
-        int[] cash = {20, 0};
+    /** So many merchants, no letters: fairs and lending alone. */
+    private static void lend(int seed, int times, int merchants) {
+        Counted x = Check.of(HEAD + "merchant 20;" + "merchant 0;".repeat(merchants - 1));
+        int[] cash = new int[merchants];
+        cash[0] = 20;
         int fairs = 0;
         int done = 0;
         int v = seed;
@@ -264,17 +301,47 @@ public final class TrayBoundsTest {
             }
             if (sort != 3) continue;
             v = next(v);
-            int a = draw(v) % 2;
+            int a = draw(v) % merchants;
             v = next(v);
-            int b = draw(v) % 2;
+            int b = draw(v) % merchants;
             if (a == b || cash[a] < 10) continue;
             cash[a] -= 10;
             cash[b] += 10;
             done++;
         }
+        behind(x, seed, times, done, fairs, v);
+        Check.cash(x, done > 0 ? cash : new int[] {20});
+    }
+
+    /** One letter of 5 coppers at fair 20: it is paid once, and is no ring. */
+    private static void one(int seed, int times) {
+        Counted x = Check.of(HEAD + "merchant 5;merchant 4;letter 0 to 1 of 5 at 20;");
+        boolean paid = false;
+        int fairs = 0;
+        int done = 0;
+        int v = seed;
+        for (int i = 0; i < times; i++) {
+            v = next(v);
+            int sort = draw(v) % 4;
+            if (sort == 0) {
+                fairs++;
+                done++;
+            }
+            if (sort == 1 && !paid) {
+                paid = true;
+                done++;
+            }
+            // one draw more for a letter, two for a ring or for lending, which can't be but for 9 coppers
+            if (sort > 0) v = next(v);
+            if (sort > 1) v = next(v);
+        }
+        behind(x, seed, times, done, fairs, v);
+        Check.due("paid", x.letter(0, 4), paid ? 1 : 0);
+    }
+
+    private static void behind(Counted x, int seed, int times, int done, int fairs, int v) {
         Check.due("year(" + seed + ", " + times + ")", x.year(seed, times), done);
         Check.due("fairs", x.count(6), fairs);
-        Check.cash(x, cash);
         Check.due("as a whole", x.count(8), done > 0 ? 1 : 0);
         Check.due("x", x.seed(0), done > 0 ? v : 0);
     }
@@ -282,7 +349,8 @@ public final class TrayBoundsTest {
     // ---- trays
 
     private static void trays() {
-        Check.says("TRAYS 0 to 3 are MISSING at first, or have 0 to 40 numbers of 8 bits (sort 0), 16 (1), 32 (2), 64 (3).");
+        Check.says("TRAYS 0 to 3 are MISSING at first, or have 0 to 40 numbers of 8 bits (sort 0), 16 (1), 32 (2), "
+            + "64 (3).");
         Counted x = new Counted();
         for (int tray : new int[] {-1, 0, 1, 2, 3, 4, LEAST, GREATEST}) {
             int code = tray >= 0 && tray <= 3 ? -6 : -2;
@@ -300,8 +368,8 @@ public final class TrayBoundsTest {
             for (int other = tray + 1; other <= 3; other++) Check.due("the others are", x.judge(other, 0), -6);
         }
 
-        Check.says("A TRAY has n numbers of a sort, all 0 (in place of another one): 0. -2: no such TRAY, sort; -3, and the TRAY stays: n "
-            + "is below 0 or above 40.");
+        Check.says("A TRAY has n numbers of a sort, all 0 (in place of another one): 0. -2: no such TRAY, sort;"
+            + " -3, and the TRAY stays: n is below 0 or above 40.");
         x = Check.of(HEAD + "merchant 9;merchant 9;letter 0 to 1 of 1 at 0;");
         for (int sort = 0; sort <= 3; sort++) {
             for (int n : new int[] {0, 1, 39, 40}) {
@@ -351,9 +419,10 @@ public final class TrayBoundsTest {
         x.put(0, 1, 2000);
         Check.due("each its own", x.judge(0, 3), 2);
 
-        Check.says("CASH of each MERCHANT behind this FAIR comes into a TRAY, as far as it has places: how many. -2; -6.");
-        String text = HEAD + "merchant 10;merchant 20;merchant 7;letter 0 to 1 of 8 at 0 late 9;letter 2 to 0 of 7 at 0;letter 1 to 0 of 1 at 1;"
-            + "letter 0 to 1 of 9 at 0;";
+        Check.says("CASH of each MERCHANT behind this FAIR comes into a TRAY, as far as it has places: how many. -2;"
+            + " -6.");
+        String text = HEAD + "merchant 10;merchant 20;merchant 7;letter 0 to 1 of 8 at 0 late 9;"
+            + "letter 2 to 0 of 7 at 0;letter 1 to 0 of 1 at 1;letter 0 to 1 of 9 at 0;";
         for (int places = 0; places <= 5; places++) {
             x = Check.of(text);
             x.numbers(1, 3, places);
@@ -390,8 +459,8 @@ public final class TrayBoundsTest {
     // ---- images, counts
 
     private static void images() {
-        Check.says("IMAGES 0 to 1 (fairs() leaves them): THE FAIRS and what a call could bring back by UNDOING; nothing can be UNDONE "
-            + "behind (none at first).");
+        Check.says("IMAGES 0 to 1 (fairs() leaves them): THE FAIRS and what a call could bring back by UNDOING;"
+            + " nothing can be UNDONE behind (none at first).");
         Counted x = new Counted();
         for (int i : new int[] {-1, 2, LEAST, GREATEST}) {
             Check.due("image", x.image(i), -2);
@@ -402,8 +471,9 @@ public final class TrayBoundsTest {
         Check.due("image", x.image(1), 0);
         Check.due("the other one", x.restore(0), -5);
         Check.due("image", x.image(0), 0);
-        Check.tell(x, "fairs 3 moneys 2;worth : money + 40;time : who = 0;merchant 5;merchant 0;merchant 8;letter 0 to 1 of 6 at 0;"
-            + "letter 1 to 2 of 6 at 0;letter 2 to 0 of 3 at 0;letter 2 to 1 of 1 at 9 late 4;fair 11;");
+        Check.tell(x, "fairs 3 moneys 2;worth : money + 40;time : who = 0;merchant 5;merchant 0;merchant 8;"
+            + "letter 0 to 1 of 6 at 0;letter 1 to 2 of 6 at 0;letter 2 to 0 of 3 at 0;"
+            + "letter 2 to 1 of 1 at 9 late 4;fair 11;");
         x.seed(77);
         x.write(2, 0, 8, 8);
         x.hold(2, false);
@@ -434,8 +504,8 @@ public final class TrayBoundsTest {
         Check.due("the fault is of the latest text", x.fault(0), 0);
         Check.due("the law time is gone", x.worth(0, 0), 10);
 
-        Check.says("0 FAIRS a year, 1 MONEYS, 2 MERCHANTS, 3 BROKEN ones, as bits, 4 letters, 5 those owed, as bits, 6 the FAIR, 7 CASH of "
-            + "all, 8 calls that can be UNDONE, 9 bytes on THE TAPE, 10 LINES. NONE for others.");
+        Check.says("0 FAIRS a year, 1 MONEYS, 2 MERCHANTS, 3 BROKEN ones, as bits, 4 letters, 5 those owed, as bits, "
+            + "6 the FAIR, 7 CASH of all, 8 calls that can be UNDONE, 9 bytes on THE TAPE, 10 LINES. NONE for others.");
         x = Check.of("fairs 6 moneys 4;" + "merchant 999;".repeat(5) + "merchant 0;" + "letter 5 to 0 of 999 at 0;"
             + "letter 0 to 1 of 1 at 20;".repeat(10) + "letter 1 to 2 of 3 at 0;fair 990;");
         int[] first = {6, 4, 6, 0, 12, 4095, 990, 4995, 0, 0, 20};
