@@ -195,10 +195,10 @@ public final class TrayBoundsTest {
         for (int times : new int[] {0, -1, 31, LEAST, GREATEST}) Check.due("times " + times, x.year(0, times), -3);
         for (int seed = -30; seed < 30; seed++) {
             for (int times : new int[] {1, 2, 29, 30}) {
-                lend(seed, times, 1);
-                lend(seed, times, 2);
-                lend(seed, times, 6);
-                one(seed, Math.min(times, 20));
+                year(seed, times, 1, false);
+                year(seed, times, 2, false);
+                year(seed, times, 6, false);
+                year(seed, Math.min(times, 20), 2, true);
             }
         }
 
@@ -284,11 +284,13 @@ public final class TrayBoundsTest {
         Check.due("x", x.seed(0), next(next(next(none))));
     }
 
-    /** So many merchants, no letters: fairs and lending alone. */
-    private static void lend(int seed, int times, int merchants) {
-        Counted x = Check.of(HEAD + "merchant 20;" + "merchant 0;".repeat(merchants - 1));
+    /** So many merchants, with a letter of 5 coppers at fair 20 or without letters. */
+    private static void year(int seed, int times, int merchants, boolean letter) {
+        String zeros = "merchant 0;".repeat(merchants - 1);
+        Counted x = Check.of(HEAD + "merchant 20;" + zeros + (letter ? "letter 0 to 1 of 5 at 20;" : ""));
         int[] cash = new int[merchants];
         cash[0] = 20;
+        boolean owed = letter;
         int fairs = 0;
         int done = 0;
         int v = seed;
@@ -298,50 +300,30 @@ public final class TrayBoundsTest {
             if (sort == 0) {
                 fairs++;
                 done++;
+                continue;
             }
-            if (sort != 3) continue;
+            if (sort < 3 && !letter) continue;
             v = next(v);
+            if (sort == 1 && owed && cash[0] >= 5) {
+                cash[0] -= 5;
+                cash[1] += 5;
+                owed = false;
+                done++;
+            }
+            if (sort == 1) continue;
             int a = draw(v) % merchants;
             v = next(v);
             int b = draw(v) % merchants;
-            if (a == b || cash[a] < 10) continue;
+            // a ring of one letter alone can't be
+            if (sort == 2 || a == b || cash[a] < 10) continue;
             cash[a] -= 10;
             cash[b] += 10;
             done++;
         }
-        behind(x, seed, times, done, fairs, v);
-        Check.cash(x, done > 0 ? cash : new int[] {20});
-    }
-
-    /** One letter of 5 coppers at fair 20: it is paid once, and is no ring. */
-    private static void one(int seed, int times) {
-        Counted x = Check.of(HEAD + "merchant 5;merchant 4;letter 0 to 1 of 5 at 20;");
-        boolean paid = false;
-        int fairs = 0;
-        int done = 0;
-        int v = seed;
-        for (int i = 0; i < times; i++) {
-            v = next(v);
-            int sort = draw(v) % 4;
-            if (sort == 0) {
-                fairs++;
-                done++;
-            }
-            if (sort == 1 && !paid) {
-                paid = true;
-                done++;
-            }
-            // one draw more for a letter, two for a ring or for lending, which can't be but for 9 coppers
-            if (sort > 0) v = next(v);
-            if (sort > 1) v = next(v);
-        }
-        behind(x, seed, times, done, fairs, v);
-        Check.due("paid", x.letter(0, 4), paid ? 1 : 0);
-    }
-
-    private static void behind(Counted x, int seed, int times, int done, int fairs, int v) {
         Check.due("year(" + seed + ", " + times + ")", x.year(seed, times), done);
         Check.due("fairs", x.count(6), fairs);
+        Check.cash(x, cash);
+        Check.due("letters owed", x.count(5), owed ? 1 : 0);
         Check.due("as a whole", x.count(8), done > 0 ? 1 : 0);
         Check.due("x", x.seed(0), done > 0 ? v : 0);
     }
