@@ -50,7 +50,8 @@ public final class SentencesTest {
     }
 
     public static void main(String[] args) throws IOException {
-        String whole = Files.readString(Path.of("../shared/DOC.md")).replaceAll("\\s+", " ");
+        String whole = Check.document();
+        if (whole.isEmpty()) return;
         String terms = whole.substring(whole.indexOf("## Terms") + 8, whole.indexOf("Ahead of the calls"));
         String promises = whole.substring(whole.indexOf("## Promise 1:"), whole.indexOf("## Not promised"));
         String text = terms + PROMISE.matcher(promises).replaceAll("\n");
